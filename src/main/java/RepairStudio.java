@@ -274,7 +274,7 @@ public final class RepairStudio {
 
     public int approve(int object) throws IndexOutOfBoundsException {
         Item item = itemOf(object);
-        if (item.queueLength == 0 || !live.nextNeedsApproval(item)) {
+        if (item.queueLength == 0 || !live.recipeAt(item.firstQueued()).asksApproval(item.guard)) {
             return REFUSED;
         }
         history.remember(live);
@@ -350,14 +350,14 @@ public final class RepairStudio {
     public boolean needsApproval(int object, int recipe) throws IndexOutOfBoundsException {
         Item item = itemOf(object);
         requireRecipe(recipe);
-        return live.asksApproval(item, recipe);
+        return live.recipeAt(recipe).asksApproval(item.guard);
     }
 
     public int approvalsAhead(int object) throws IndexOutOfBoundsException {
         Item item = itemOf(object);
         int sum = 0;
         for (int place = 0; place < item.queueLength; place++) {
-            if (live.asksApproval(item, item.queuedAt(place))) {
+            if (live.recipeAt(item.queuedAt(place)).asksApproval(item.guard)) {
                 sum++;
             }
         }
@@ -522,7 +522,7 @@ public final class RepairStudio {
             if (ahead.time >= TIME_LIMIT) {
                 return NONE;
             }
-            ahead.passHour();
+            ahead.passHours(1);
         }
         return NONE;
     }
@@ -568,7 +568,7 @@ public final class RepairStudio {
             if (ahead.time >= TIME_LIMIT) {
                 return NONE;
             }
-            ahead.passHour();
+            ahead.passHours(1);
         }
         return NONE;
     }
@@ -654,7 +654,7 @@ public final class RepairStudio {
                 put(',');
             }
             put('0' + recipe);
-            if (live.asksApproval(item, recipe)) {
+            if (live.recipeAt(recipe).asksApproval(item.guard)) {
                 put('!');
             }
         }
@@ -845,6 +845,10 @@ public final class RepairStudio {
             stepsDone = other.stepsDone;
         }
 
+        boolean asksApproval(int guard) {
+            return level + guard >= APPROVAL_FROM;
+        }
+
         int hours() {
             return work + cure;
         }
@@ -946,6 +950,10 @@ public final class RepairStudio {
             return hasPlace(place) ? queue[place] : NONE;
         }
 
+        int firstQueued() {
+            return queueLength > 0 && queue.length > 0 ? queue[0] : NONE;
+        }
+
         void enqueue(int newRecipe) {
             if (queueLength >= 0 && queueLength < queue.length) {
                 queue[queueLength] = newRecipe;
@@ -965,7 +973,7 @@ public final class RepairStudio {
         }
 
         int dropFirst() {
-            int first = queuedAt(0);
+            int first = firstQueued();
             for (int place = 0; place + 1 < queueLength && place + 1 < queue.length; place++) {
                 queue[place] = queue[place + 1];
             }
@@ -1103,6 +1111,9 @@ public final class RepairStudio {
         final Press[] presses;
         final Recipe[] recipes;
         final Item[] items;
+        final Press sparePress;
+        final Recipe spareRecipe;
+        final Item spareItem;
         final Book book;
         int pressCount;
         int recipeCount;
@@ -1127,6 +1138,9 @@ public final class RepairStudio {
             for (int number = 0; number < items.length; number++) {
                 items[number] = new Item(number);
             }
+            sparePress = new Press();
+            spareRecipe = new Recipe();
+            spareItem = new Item(NONE);
             book = new Book();
             benches = 1;
             life = FIRST_LIFE;
@@ -1167,18 +1181,18 @@ public final class RepairStudio {
             }
         }
 
-        // The callers know that the number is good; 0 in place of a bad one keeps the machine from throwing.
+        // The callers know that the number is good; the spare thing keeps the machine from throwing on a bad one.
 
         Press pressAt(int number) {
-            return presses[number >= 0 && number < presses.length ? number : 0];
+            return number >= 0 && number < presses.length ? presses[number] : sparePress;
         }
 
         Recipe recipeAt(int number) {
-            return recipes[number >= 0 && number < recipes.length ? number : 0];
+            return number >= 0 && number < recipes.length ? recipes[number] : spareRecipe;
         }
 
         Item itemAt(int number) {
-            return items[number >= 0 && number < items.length ? number : 0];
+            return number >= 0 && number < items.length ? items[number] : spareItem;
         }
 
         void addPress(int size) {
@@ -1202,18 +1216,14 @@ public final class RepairStudio {
 
         void passHours(int hours) {
             for (int hour = 0; hour < hours && time < TIME_LIMIT; hour++) {
-                passHour();
+                for (int number = 0; number < itemCount; number++) {
+                    goOn(itemAt(number));
+                }
+                fillPresses();
+                startLoans();
+                startSteps();
+                time++;
             }
-        }
-
-        void passHour() {
-            for (int number = 0; number < itemCount; number++) {
-                goOn(itemAt(number));
-            }
-            fillPresses();
-            startLoans();
-            startSteps();
-            time++;
         }
 
         private void goOn(Item item) {
@@ -1352,10 +1362,11 @@ public final class RepairStudio {
             if (item.queueLength == 0) {
                 return EMPTY_QUEUE;
             }
-            if (recipeAt(item.queuedAt(0)).inPress == 1 && fittingPress(item.size, false) == NONE) {
+            Recipe recipe = recipeAt(item.firstQueued());
+            if (recipe.inPress == 1 && greatestPress() < item.size) {
                 return NO_PRESS;
             }
-            if (nextNeedsApproval(item)) {
+            if (recipe.asksApproval(item.guard)) {
                 if (item.approvalEnd == NONE) {
                     return NO_APPROVAL;
                 }
@@ -1379,14 +1390,6 @@ public final class RepairStudio {
             return first;
         }
 
-        boolean asksApproval(Item item, int recipe) {
-            return recipeAt(recipe).level + item.guard >= APPROVAL_FROM;
-        }
-
-        boolean nextNeedsApproval(Item item) {
-            return asksApproval(item, item.queuedAt(0));
-        }
-
         /** The least press that takes a size, of several the lowest one; NONE if there is none. */
         int fittingPress(int size, boolean onlyFree) {
             int best = NONE;
@@ -1404,8 +1407,10 @@ public final class RepairStudio {
 
         int greatestPress() {
             int greatest = 0;
-            for (int number = 0; number < pressCount; number++) {
-                greatest = Math.max(greatest, pressAt(number).size);
+            for (int number = 0; number < pressCount && number < presses.length; number++) {
+                if (presses[number].size > greatest) {
+                    greatest = presses[number].size;
+                }
             }
             return greatest;
         }
@@ -1421,7 +1426,13 @@ public final class RepairStudio {
         }
 
         int freeBenches() {
-            return benches - Integer.bitCount(itemsIn(AT_BENCH));
+            int free = benches;
+            for (int number = 0; number < itemCount && number < items.length; number++) {
+                if (items[number].state == AT_BENCH) {
+                    free--;
+                }
+            }
+            return free;
         }
 
         int itemsIn(int state) {
@@ -1502,10 +1513,10 @@ public final class RepairStudio {
         }
 
         long leastBetween(Studio studio, int from, int target, boolean inMoney) {
-            long found = NONE;
+            long found = 0;
             // No step makes a score less: what is behind a step is known when the greater scores are.
-            for (int score = BEST_SCORE; score >= from; score--) {
-                found = score >= target ? 0 : leastFrom(studio, score, inMoney);
+            for (int score = target - 1; score >= from; score--) {
+                found = leastFrom(studio, score, target, inMoney);
                 if (score >= 0 && score < least.length) {
                     least[score] = found;
                 }
@@ -1513,19 +1524,27 @@ public final class RepairStudio {
             return found;
         }
 
-        private long leastFrom(Studio studio, int score, boolean inMoney) {
+        private long leastFrom(Studio studio, int score, int target, boolean inMoney) {
             long best = NONE;
             for (int number = 0; number < studio.recipeCount; number++) {
                 Recipe recipe = studio.recipeAt(number);
                 int behind = recipe.scoreBehind(score);
-                if (behind > score && behind >= 0 && behind < least.length && least[behind] != NONE) {
-                    long sum = least[behind] + (inMoney ? recipe.price() : recipe.hours());
+                long further = behind > score ? leastBehind(behind, target) : NONE;
+                if (further != NONE) {
+                    long sum = further + (inMoney ? recipe.price() : recipe.hours());
                     if (best == NONE || sum < best) {
                         best = sum;
                     }
                 }
             }
             return best;
+        }
+
+        private long leastBehind(int score, int target) {
+            if (score >= target) {
+                return 0;
+            }
+            return score >= 0 && score < least.length ? least[score] : NONE;
         }
     }
 
@@ -1660,14 +1679,28 @@ public final class RepairStudio {
         boolean readStudio(Studio draft) {
             begin();
             draft.clear();
-            boolean good = readStatements(draft);
+            boolean good = true;
+            for (int turn = 0; good && turn <= INPUT_LIMIT; turn++) {
+                tokens.step();
+                if (tokens.kind == Tokens.END) {
+                    break;
+                }
+                good = readStatement(draft);
+            }
             tokens.length = 0;
             return good;
         }
 
         boolean readScript() {
             begin();
-            boolean good = readCommands();
+            boolean good = true;
+            for (int turn = 0; good && turn <= COMMAND_LIMIT; turn++) {
+                tokens.step();
+                if (tokens.kind == Tokens.END) {
+                    break;
+                }
+                good = readCommand();
+            }
             tokens.length = 0;
             return good;
         }
@@ -1684,19 +1717,6 @@ public final class RepairStudio {
             errorPosition = NONE;
             benchesRead = false;
             lifeRead = false;
-        }
-
-        private boolean readStatements(Studio draft) {
-            for (int turn = 0; turn <= INPUT_LIMIT; turn++) {
-                tokens.step();
-                if (tokens.kind == Tokens.END) {
-                    return true;
-                }
-                if (!readStatement(draft)) {
-                    return false;
-                }
-            }
-            return true;
         }
 
         private boolean readStatement(Studio draft) {
@@ -1756,19 +1776,6 @@ public final class RepairStudio {
             recipe.base = number(4);
             recipe.rate = number(5);
             recipe.wage = number(6);
-        }
-
-        private boolean readCommands() {
-            for (int turn = 0; turn <= COMMAND_LIMIT; turn++) {
-                tokens.step();
-                if (tokens.kind == Tokens.END) {
-                    return true;
-                }
-                if (!readCommand()) {
-                    return false;
-                }
-            }
-            return true;
         }
 
         private boolean readCommand() {
