@@ -117,6 +117,10 @@ public final class PromisesTest {
 
     static void promise4Errors() {
         refused(false, "prex 1;", 1, 0);
+        for (String word : new String[] {"benches 1", "life 1", "press 1", "recipe 1 0 0 0 0 0 1", "object 1 1 1"}) {
+            refused(false, "z" + word.substring(1) + ";", 1, 0);
+            refused(false, word.replaceFirst(" ", "z ") + ";", 1, 0);
+        }
         refused(false, "press 1; Press 1;", 1, 9);
         refused(false, " press", 1, 6);
         refused(false, "press 1  ", 1, 9);
@@ -704,6 +708,8 @@ public final class PromisesTest {
     static void promise32() {
         RepairStudio s = shop();
         same("32: there already", s.quickestTo(0, 399), 0);
+        same("32: 0 is a target", s.quickestTo(2, 0), 0);
+        same("32: exactly there", s.quickestTo(0, 400), 0);
         same("32: one step", s.quickestTo(0, 401), 2);
         // 400 to 700 by recipe 1 in 6 hours, or by three of recipe 0
         same("32: 700", s.quickestTo(0, 700), 6);
@@ -726,6 +732,9 @@ public final class PromisesTest {
     static void promise33() {
         RepairStudio s = shop();
         same("33: there already", s.cheapestTo(0, 400), 0L);
+        same("33: 0 is a target", s.cheapestTo(2, 0), 0L);
+        // from 0: the steps over the score 0 itself count, too
+        same("33: from 0", s.cheapestTo(2, 500), 7L);
         // recipe 1 costs 7 and comes from 400 to 700
         same("33: 700", s.cheapestTo(0, 700), 7L);
         same("33: 701", s.cheapestTo(0, 701), 14L);
@@ -910,6 +919,17 @@ public final class PromisesTest {
         s.tick(9);
         same("41: loans do not count", s.lost(1), 2);
         same("41: loan came", s.object(1, 1), 183);
+        RepairStudio oldest = waiting();
+        oldest.tick(8);
+        for (int n = 0; n < 99; n++) {
+            oldest.lend(0, 0, 0, 1);
+            oldest.tick(2);
+        }
+        same("41: the oldest one that is kept", oldest.record(0, 1), 1);
+        same("41: it counts", oldest.lost(1), 2);
+        oldest.lend(0, 0, 0, 1);
+        oldest.tick(2);
+        same("41: it is gone", oldest.lost(1), 0);
         Check.noObject("41: object", () -> s.lost(2));
         Check.noObject("41: object", () -> s.lost(-1));
     }
@@ -1298,6 +1318,14 @@ public final class PromisesTest {
         same("61: to the end of time", s.play(), 19);
         same("61: no error", s.errorCode(), 0);
         same("61: the buffer is empty", s.truncateInput(1), -1);
+        for (String word : new String[] {"plan 0 0", "cancel 0", "approve 0", "lend 0 0 0 1", "recall 0", "tick 1"}) {
+            refused(true, "z" + word.substring(1) + ";", 1, 0);
+            refused(true, word.replaceFirst(" ", "z ") + ";", 1, 0);
+        }
+        RepairStudio ends = Check.loaded(times("recipe 1 0 0 0 0 0 1;", 10) + times("object 1 0 0;", 16));
+        Check.input(ends, "lend 15 20000 1000 500;plan 15 9;tick 1000;lend 0 0 0 1;plan 0 0;tick 1;");
+        same("61: the ends of the ranges", ends.play(), 6);
+        same("61: great", ends.loan(15, 2), 500);
         refused(true, times("tick 1;", 41), 4, 280);
         refused(true, times("tick 1;", 40) + "tack", 1, 280);
         refused(true, times("tick 1;", 39) + "tick 0;tick 1;", 2, 278);
@@ -1426,6 +1454,14 @@ public final class PromisesTest {
         same("65: goes on as before", s.lost(1), 2);
         same("65: it stays", s.restoreSnapshot(1), true);
         same("65: digest again", s.digest(), digest);
+        // 1 comes into the press, then waits once more from another score: the first wait is back with its own
+        s.tick(9);
+        for (int k = 0; k < 2; k++) s.plan(k, 0);
+        s.tick(3);
+        same("65: waits again", s.object(1, 3), 2);
+        same("65: the first wait is back", s.restoreSnapshot(1), true);
+        s.tick(2);
+        row("65: from its own score", s, 3, 1, 1, 0, 4, 205, 203);
         Check.input(s, "object 1 1 1;");
         s.load();
         same("65: gone by load()", s.restoreSnapshot(1), false);
