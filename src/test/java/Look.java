@@ -1,7 +1,10 @@
 import java.util.ArrayList;
 import java.util.List;
 
-/** All that can be seen of a studio, line by line; looking changes nothing. */
+/**
+ * All that can be seen of a studio, line by line; looking changes nothing. A look may take more than the 512
+ * calls that the document promises to answer: RepairStudio does not count its calls.
+ */
 final class Look {
     private final RepairStudio studio;
     private final List<String> lines = new ArrayList<>();

@@ -23,7 +23,7 @@ final class TextBounds {
         buffer();
         words();
         numbers();
-        blanks();
+        blankBytes();
         statements();
         commands();
         firstError();
@@ -116,7 +116,7 @@ final class TextBounds {
         Bounds.textRefused("press 1<", 1, 7);
     }
 
-    private static void blanks() {
+    private static void blankBytes() {
         says("Spaces and line feeds (bytes 32 and 10) separate tokens and have no other meaning.");
         for (int sign = 0; sign < 256; sign++) {
             boolean blank = sign == 32 || sign == 10;
@@ -165,6 +165,7 @@ final class TextBounds {
             Bounds.textTaken(statement, statement.startsWith("object") ? 1 : 0);
             Bounds.textTaken(statement.replaceAll(" (?=;)", ""), statement.startsWith("object") ? 1 : 0);
             broken("press 5;\n", statement, false);
+            otherWords(statement, false);
         }
         for (String command : COMMANDS) Bounds.textRefused(command, 1, 0);
         RepairStudio t = Bounds.textTaken("recipe 31 32 1 3 34 35 36;object 41 42 3;", 1);
@@ -192,6 +193,20 @@ final class TextBounds {
             }
             start += tokens[k] + " ";
         }
+    }
+
+    /** Words that differ in one letter, or have one less or one more. */
+    private static void otherWords(String statement, boolean script) {
+        int length = statement.indexOf(' ');
+        String word = statement.substring(0, length);
+        String rest = statement.substring(length);
+        for (int at = 0; at < length; at++) {
+            wrong(word.substring(0, at) + (word.charAt(at) == 'x' ? 'y' : 'x') + word.substring(at + 1) + rest, 1, 0, script);
+            wrong(word.substring(0, at) + word.substring(at + 1) + rest, 1, 0, script);
+        }
+        wrong(word + "s" + rest, 1, 0, script);
+        wrong("s" + word + rest, 1, 0, script);
+        wrong(word.substring(0, 1).toUpperCase() + word.substring(1) + rest, 1, 0, script);
     }
 
     private static void wrong(String text, int code, int position, boolean script) {
@@ -258,7 +273,10 @@ final class TextBounds {
         Bounds.scriptRefused("recall 16;", 2, 7);
         Bounds.scriptRefused("tick 0;", 2, 5);
         Bounds.scriptRefused("tick 1001;", 2, 5);
-        for (String command : COMMANDS) broken("tick 1;\n", command, true);
+        for (String command : COMMANDS) {
+            broken("tick 1;\n", command, true);
+            otherWords(command, true);
+        }
         for (String statement : STATEMENTS) Bounds.scriptRefused(statement, 1, 0);
         for (String other : new String[] {"clear 0;", "exchange 0 0 1;", "undo;", "write 0;"}) Bounds.scriptRefused(other, 1, 0);
     }
@@ -342,25 +360,31 @@ final class TextBounds {
     private static void replacing() {
         says("A text of load() without errors replaces everything (time 0, all objects on the shelf) but the output, which stays;"
                 + " nothing can be undone then, and there are no snapshots.");
-        for (String text : new String[] {"", "press 5;recipe 1 2 1 0 3 4 5;object 6 7 1;object 8 9 0;"}) {
+        String some = "press 5;recipe 1 2 1 0 3 4 5;" + "object 5 7 0;".repeat(5);
+        for (int k = 0; k < 8; k++) {
+            String text = k % 2 == 0 ? "" : some;
             RepairStudio s = Bounds.busy();
             // forecasts, and a text that is refused in its last word, leave nothing behind
-            Look.state(s);
-            Check.input(s, "benches 3;life 7;press 1;press 2;recipe 9 9 0 3 9 9 9;object 9 9 3;object 9 9 3;object 9 9 3;x");
-            same("refused", s.load(), -3);
+            if (k / 2 == 1) Look.state(s);
+            if (k / 2 == 2) s.lentIn(1);
+            if (k / 2 == 3) {
+                s.lentIn(500);
+                Check.input(s, "benches 3;life 7;press 1;press 2;recipe 9 9 0 3 9 9 9;object 9 9 3;object 9 9 3;object 9 9 3;x");
+                same("refused", s.load(), -3);
+            }
             Check.input(s, text);
-            same("objects", s.load(), text.isEmpty() ? 0 : 2);
+            same("objects", s.load(), text.isEmpty() ? 0 : 5);
             same("as another one", Look.difference(Look.state(s), Look.state(Bounds.loaded(text))), "the same");
             same("time", s.count(4), 0);
-            same("all on the shelf", s.objectsIn(0), text.isEmpty() ? 0 : 3);
+            same("all on the shelf", s.objectsIn(0), text.isEmpty() ? 0 : 31);
             same("output", s.outputByte(0), (int) '2');
             same("nothing to undo", s.undo(), -1);
             for (int place = 0; place <= 1; place++) same("snapshot " + place, s.restoreSnapshot(place), false);
             if (text.isEmpty()) continue;
             // it goes on as another one, too: nothing is left inside
-            for (int object = 0; object <= 1; object++) s.plan(object, 0);
+            for (int object = 0; object < 5; object++) s.plan(object, 0);
             RepairStudio other = Bounds.loaded(text);
-            for (int object = 0; object <= 1; object++) other.plan(object, 0);
+            for (int object = 0; object < 5; object++) other.plan(object, 0);
             s.tick(9);
             other.tick(9);
             same("goes on as another one", Look.difference(Look.state(s), Look.state(other)), "the same");
