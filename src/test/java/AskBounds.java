@@ -39,8 +39,8 @@ final class AskBounds {
     }
 
     /** Object k has the reason k + 1, of six objects. */
-    private static RepairStudio reasons() {
-        RepairStudio s = Bounds.loaded("life 1;press 5;recipe 9 0 0 0 0 0 1;recipe 1 1 1 0 0 0 1;recipe 1 0 0 3 0 0 1;"
+    private static CountedStudio reasons() {
+        CountedStudio s = Bounds.loaded("life 1;press 5;recipe 9 0 0 0 0 0 1;recipe 1 1 1 0 0 0 1;recipe 1 0 0 3 0 0 1;"
                 + "object 1 1 0;object 1 1 0;object 6 1 0;object 1 1 1;object 1 1 1;object 1 1 0;");
         s.plan(0, 0);
         s.lend(0, 0, 1000, 1);
@@ -61,7 +61,7 @@ final class AskBounds {
             Bounds.asked("object " + k, AskBounds::reasons, k + 1, s -> s.reason(object));
         }
         Bounds.asked("can begin", Bounds::busy, 0, s -> s.reason(4));
-        RepairStudio s = Bounds.full();
+        CountedStudio s = Bounds.full();
         same("the last object", s.reason(15), 2);
         s.plan(15, 9);
         same("can begin then", s.reason(15), 0);
@@ -90,7 +90,7 @@ final class AskBounds {
             Bounds.asked("with " + reason, AskBounds::reasons, 1 << (reason - 1), s -> s.objectsWith(number));
         }
         Bounds.asked("none can begin", AskBounds::reasons, 0, s -> s.objectsWith(0));
-        RepairStudio s = Bounds.full();
+        CountedStudio s = Bounds.full();
         same("all sixteen", s.objectsWith(2), 65535);
         for (int object = 0; object < 16; object++) s.plan(object, 0);
         same("all sixteen can begin", s.objectsWith(0), 65535);
@@ -98,7 +98,7 @@ final class AskBounds {
         same("one begins", s.objectsWith(1), 1);
         same("none can begin then", s.objectsWith(0), 0);
         same("for there is no bench", s.objectsWith(6), 65534);
-        same("no objects", new RepairStudio().objectsWith(2), 0);
+        same("no objects", new CountedStudio().objectsWith(2), 0);
         says("Throws IllegalArgumentException if reason is out of range");
         Bounds.range(0, 6, (x, reason) -> x.objectsWith(reason));
     }
@@ -106,10 +106,10 @@ final class AskBounds {
     private static void next() {
         promise(24);
         says("Returns the object that would begin first now. Returns the object; NONE if none can begin.");
-        same("no objects", new RepairStudio().next(), -1);
+        same("no objects", new CountedStudio().next(), -1);
         Bounds.asked("none of six", AskBounds::reasons, -1, s -> s.next());
         Bounds.asked("the only one", Bounds::busy, 4, s -> s.next());
-        RepairStudio s = Bounds.full();
+        CountedStudio s = Bounds.full();
         same("empty queues", s.next(), -1);
         s.plan(15, 0);
         same("the last", s.next(), 15);
@@ -129,7 +129,7 @@ final class AskBounds {
     private static void approvals() {
         promise(25);
         says("Tells whether a step of an object by a recipe needs an approval. - object: number of an object - recipe: number of a recipe Returns true if so.");
-        RepairStudio s = Bounds.loaded("recipe 1 0 0 0 0 0 1;recipe 1 0 0 1 0 0 1;recipe 1 0 0 2 0 0 1;recipe 1 0 0 3 0 0 1;"
+        CountedStudio s = Bounds.loaded("recipe 1 0 0 0 0 0 1;recipe 1 0 0 1 0 0 1;recipe 1 0 0 2 0 0 1;recipe 1 0 0 3 0 0 1;"
                 + "object 1 1 0;object 1 1 1;object 1 1 2;object 1 1 3;");
         boolean[][] due = {{false, false, false, false}, {false, false, false, true}, {false, false, true, true}, {false, true, true, true}};
         for (int guard = 0; guard <= 3; guard++) {
@@ -159,11 +159,11 @@ final class AskBounds {
     private static void pressFor() {
         promise(27);
         says("Returns the press that would take an object if all presses were free. - object: number of an object Returns the press; NONE if all are too small.");
-        RepairStudio s = Bounds.loaded("press 50;press 20;press 100;press 20;press 99;press 50;object 1 1 0;object 20 1 0;object 21 1 0;object 50 1 0;"
+        CountedStudio s = Bounds.loaded("press 50;press 20;press 100;press 20;press 99;press 50;object 1 1 0;object 20 1 0;object 21 1 0;object 50 1 0;"
                 + "object 51 1 0;object 99 1 0;object 100 1 0;");
         int[] due = {1, 1, 0, 0, 4, 4, 2};
         for (int object = 0; object < due.length; object++) same("object " + object, s.pressFor(object), due[object]);
-        RepairStudio small = Bounds.loaded("press 49;press 50;object 50 1 0;object 51 1 0;object 100 1 0;");
+        CountedStudio small = Bounds.loaded("press 49;press 50;object 50 1 0;object 51 1 0;object 100 1 0;");
         same("as great", small.pressFor(0), 1);
         same("too small by one", small.pressFor(1), -1);
         same("too small", small.pressFor(2), -1);
@@ -181,7 +181,7 @@ final class AskBounds {
         int[][] growths = {{0, 0, 0, 0}, {500, 100, 0, 1000}, {100, 0, 899, 999}, {100, 0, 900, 1000}, {100, 0, 901, 1000}, {0, 100, 0, 1000},
             {0, 99, 999, 999}, {0, 1, 900, 901}, {0, 1, 901, 901}, {500, 0, 1000, 1000}, {1, 0, 999, 1000}, {0, 33, 995, 996}, {7, 33, 1, 337}};
         for (int[] growth : growths) {
-            RepairStudio s = Bounds.loaded("recipe 1 0 0 0 " + growth[0] + " " + growth[1] + " 1;object 1 " + growth[2] + " 0;");
+            CountedStudio s = Bounds.loaded("recipe 1 0 0 0 " + growth[0] + " " + growth[1] + " 1;object 1 " + growth[2] + " 0;");
             same("BASE " + growth[0] + ", RATE " + growth[1] + ", SCORE " + growth[2], s.scoreAfter(0, 0), growth[3]);
             same("it is not done", s.object(0, 1), growth[2]);
         }
@@ -196,7 +196,7 @@ final class AskBounds {
         promise(29);
         says("Returns the SCORE of an object behind all recipes of its queue, as if they were done now one behind the other (nothing is lost in between)."
                 + " - object: number of an object Returns the score.");
-        RepairStudio s = Bounds.loaded("press 9;recipe 1 9 1 0 100 0 1;recipe 1 9 1 0 0 50 1;object 9 100 0;object 9 0 0;");
+        CountedStudio s = Bounds.loaded("press 9;recipe 1 9 1 0 100 0 1;recipe 1 9 1 0 0 50 1;object 9 100 0;object 9 0 0;");
         same("an empty queue", s.scoreAhead(0), 100);
         same("of 0", s.scoreAhead(1), 0);
         int[] due = {200, 300, 400, 500, 600, 700, 800, 900};
@@ -297,7 +297,7 @@ final class AskBounds {
     }
 
     private static void row(int hours, long money, String recipes, int score, int target) {
-        RepairStudio s = Bounds.loaded(recipes + "object 1 " + score + " 0;");
+        CountedStudio s = Bounds.loaded(recipes + "object 1 " + score + " 0;");
         String what = recipes + " from " + score + " to " + target;
         if (hours != Bounds.MIN) same(what, s.quickestTo(0, target), hours);
         if (money != Bounds.MIN) same(what, s.cheapestTo(0, target), money);
@@ -395,7 +395,7 @@ final class AskBounds {
         promise(34);
         says("Returns how many hours of work and curing are in the queue of an object, WORK and CURE of all its recipes together. - object: number of an object"
                 + " Returns the hours.");
-        RepairStudio s = Bounds.loaded("recipe 40 200 1 0 0 0 1;recipe 1 0 0 0 0 0 1;object 1 1 0;object 1 1 0;");
+        CountedStudio s = Bounds.loaded("recipe 40 200 1 0 0 0 1;recipe 1 0 0 0 0 0 1;object 1 1 0;object 1 1 0;");
         same("an empty queue", s.hoursAhead(0), 0);
         for (int n = 1; n <= 8; n++) {
             s.plan(0, 0);
@@ -410,8 +410,8 @@ final class AskBounds {
     }
 
     /** Object 1 owes as much as object 0 would with a queue of its own; both are done. */
-    private static RepairStudio bothOwe(int[] first, int[] second) {
-        RepairStudio s = HourBounds.dear(first);
+    private static CountedStudio bothOwe(int[] first, int[] second) {
+        CountedStudio s = HourBounds.dear(first);
         for (int recipe : second) s.plan(1, recipe);
         s.tick(700);
         return s;
@@ -435,7 +435,7 @@ final class AskBounds {
 
         promise(36);
         says("Returns what all objects owe together. Returns the amount.");
-        same("no objects", new RepairStudio().allBills(), 0);
+        same("no objects", new CountedStudio().allBills(), 0);
         same("nothing", Bounds.full().allBills(), 0);
         Bounds.asked("some", Bounds::busy, 15, s -> s.allBills());
         says("Throws ArithmeticException if it is greater than 2147483647");
@@ -450,7 +450,7 @@ final class AskBounds {
         promise(37);
         says("Returns what an object would owe if all of its queue were done, too. - object: number of an object Returns the amount.");
         same("nothing", Bounds.full().billAhead(15), 0);
-        RepairStudio s = HourBounds.dear(5, 3, 2);
+        CountedStudio s = HourBounds.dear(5, 3, 2);
         same("all of the queue", s.billAhead(0), 147483648);
         s.tick(1);
         same("less what goes on", s.billAhead(0), 147483647);
@@ -466,7 +466,7 @@ final class AskBounds {
         Bounds.refused("greater by one", () -> HourBounds.dear(1, 2, 3, 5), Bounds.TOO_GREAT, x -> x.billAhead(0));
         Bounds.refused("two to the 32nd", () -> HourBounds.dear(0, 2, 2, 4), Bounds.TOO_GREAT, x -> x.billAhead(0));
         Bounds.refused("far", () -> HourBounds.dear(0, 0, 0, 0, 0, 0, 0, 0), Bounds.TOO_GREAT, x -> x.billAhead(0));
-        RepairStudio owed = HourBounds.owing(1);
+        CountedStudio owed = HourBounds.owing(1);
         owed.plan(0, 2);
         owed.plan(0, 3);
         same("owed and the queue", owed.billAhead(0), Bounds.MAX);
@@ -495,7 +495,7 @@ final class AskBounds {
         }
         Bounds.refused("none yet", Bounds::full, Bounds.NO_SUCH, s -> s.record(0, 0));
         for (int records : new int[] {1, 99, 100, 101, 200, 201}) {
-            RepairStudio s = HourBounds.withRecords(records);
+            CountedStudio s = HourBounds.withRecords(records);
             int kept = Math.min(100, records);
             same("the last of " + records, s.record(kept - 1, 5), records);
             same("behind the last of " + records, Bounds.answer(s, x -> x.record(kept, 0)), Bounds.NO_SUCH);
@@ -503,8 +503,8 @@ final class AskBounds {
     }
 
     /** A press record and a loan record of object 1, and so many further records of object 0. */
-    private static RepairStudio pushedOut(int further) {
-        RepairStudio s = Bounds.loaded("benches 2;press 9;recipe 1 3 1 0 5 0 1;recipe 1 0 0 0 0 0 1;object 9 100 0;object 9 200 0;");
+    private static CountedStudio pushedOut(int further) {
+        CountedStudio s = Bounds.loaded("benches 2;press 9;recipe 1 3 1 0 5 0 1;recipe 1 0 0 0 0 0 1;object 9 100 0;object 9 200 0;");
         s.plan(0, 0);
         s.plan(1, 0);
         s.lend(1, 0, 0, 1);
@@ -573,7 +573,7 @@ final class AskBounds {
         same("of 205, 204, 203, 202", pushedOut(0).lost(1), 3);
         same("it is kept", pushedOut(98).lost(1), 3);
         same("it is pushed out", pushedOut(99).lost(1), 0);
-        RepairStudio twice = pushedOut(0);
+        CountedStudio twice = pushedOut(0);
         for (int object = 0; object <= 1; object++) twice.plan(object, 0);
         twice.tick(9);
         same("two waits", twice.lost(1), 6);

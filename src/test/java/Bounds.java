@@ -13,15 +13,15 @@ final class Bounds {
     static final Class<?> TOO_GREAT = ArithmeticException.class;
 
     interface Maker {
-        RepairStudio make();
+        CountedStudio make();
     }
 
     interface Call {
-        Object of(RepairStudio studio);
+        Object of(CountedStudio studio);
     }
 
     interface Numbered {
-        Object of(RepairStudio studio, int number);
+        Object of(CountedStudio studio, int number);
     }
 
     private Bounds() {
@@ -32,7 +32,7 @@ final class Bounds {
     }
 
     /** What a call answers, or the class of the exception that it throws. */
-    static Object answer(RepairStudio studio, Call call) {
+    static Object answer(CountedStudio studio, Call call) {
         try {
             return call.of(studio);
         } catch (RuntimeException e) {
@@ -40,15 +40,15 @@ final class Bounds {
         }
     }
 
-    static RepairStudio loaded(String text) {
+    static CountedStudio loaded(String text) {
         return Check.loaded(text);
     }
 
     // ---- studios to begin from ----
 
     /** An object in each state, all kinds of records, ten calls to undo, both snapshots, an output, an error and a script in the buffer. */
-    static RepairStudio busy() {
-        RepairStudio s = loaded("benches 2;life 30;press 30;recipe 1 9 1 0 10 0 5;recipe 20 0 0 1 0 0 3;recipe 1 1 0 3 5 5 100000000;"
+    static CountedStudio busy() {
+        CountedStudio s = loaded("benches 2;life 30;press 30;recipe 1 9 1 0 10 0 5;recipe 20 0 0 1 0 0 3;recipe 1 1 0 3 5 5 100000000;"
                 + "object 10 500 0;object 10 400 0;object 10 300 0;object 10 200 1;object 10 100 1;");
         s.lend(3, 0, 0, 1);
         s.plan(0, 0);
@@ -74,23 +74,23 @@ final class Bounds {
     }
 
     /** The same with nine calls to undo, so that one more does not push out another. */
-    static RepairStudio rested() {
-        RepairStudio s = busy();
+    static CountedStudio rested() {
+        CountedStudio s = busy();
         s.undo();
         return s;
     }
 
     /** As many presses, recipes and objects as there can be. */
-    static RepairStudio full() {
+    static CountedStudio full() {
         return loaded("press 100;".repeat(6) + "recipe 1 1 0 0 1 1 1;".repeat(10) + "object 1 500 0;".repeat(16));
     }
 
-    static RepairStudio at(int time, RepairStudio studio) {
+    static CountedStudio at(int time, CountedStudio studio) {
         while (studio.count(4) < time) studio.tick(Math.min(1000, time - studio.count(4)));
         return studio;
     }
 
-    static RepairStudio at(int time, String text) {
+    static CountedStudio at(int time, String text) {
         return at(time, loaded(text));
     }
 
@@ -98,23 +98,23 @@ final class Bounds {
 
     /** The answer is as due, and the studio is as one of which the call was not asked, in all that can be seen now and later. */
     static void refused(String what, Maker maker, Object due, Call call) {
-        RepairStudio called = maker.make();
+        CountedStudio called = maker.make();
         same(what, answer(called, call), due);
         same(what + ", then", Look.difference(Look.further(called), Look.further(maker.make())), "the same");
     }
 
     /** A text that load() refuses, and where. */
     static void textRefused(String text, int code, int position) {
-        refusedText(text, code, position, RepairStudio::load);
+        refusedText(text, code, position, CountedStudio::load);
     }
 
     /** A script that play() refuses, and where. */
     static void scriptRefused(String text, int code, int position) {
-        refusedText(text, code, position, RepairStudio::play);
+        refusedText(text, code, position, CountedStudio::play);
     }
 
     private static void refusedText(String text, int code, int position, Call reader) {
-        RepairStudio s = busy();
+        CountedStudio s = busy();
         List<String> before = Look.state(s);
         Check.input(s, text);
         same(text, answer(s, reader), TEXT_ERROR);
@@ -126,8 +126,8 @@ final class Bounds {
     }
 
     /** A text that load() takes, with the number of objects. */
-    static RepairStudio textTaken(String text, int objects) {
-        RepairStudio s = new RepairStudio();
+    static CountedStudio textTaken(String text, int objects) {
+        CountedStudio s = new CountedStudio();
         Check.input(s, text);
         same(text, s.load(), objects);
         same(text + ": code", s.errorCode(), 0);
@@ -158,12 +158,12 @@ final class Bounds {
     private static void numbers(int few, int most, Numbered call) {
         for (int bad : new int[] {-1, few, MIN, MAX}) refused("number " + bad, Bounds::busy, NO_SUCH, s -> call.of(s, bad));
         for (int bad : new int[] {-1, most}) refused("number " + bad + " of a full one", Bounds::full, NO_SUCH, s -> call.of(s, bad));
-        refused("number 0 of a new one", RepairStudio::new, NO_SUCH, s -> call.of(s, 0));
+        refused("number 0 of a new one", CountedStudio::new, NO_SUCH, s -> call.of(s, 0));
         for (int good : new int[] {0, few - 1}) allowed("number " + good, busy(), good, call);
         for (int good : new int[] {0, most - 1}) allowed("number " + good + " of a full one", full(), good, call);
     }
 
-    static void allowed(String what, RepairStudio studio, int good, Numbered call) {
+    static void allowed(String what, CountedStudio studio, int good, Numbered call) {
         same(what + " is allowed", answer(studio, s -> call.of(s, good)) instanceof Class, false);
     }
 
@@ -178,7 +178,7 @@ final class Bounds {
     }
 
     /** The properties from 0 on; NONE below and behind them. */
-    static void properties(RepairStudio studio, Numbered call, int... due) {
+    static void properties(CountedStudio studio, Numbered call, int... due) {
         for (int what = 0; what < due.length; what++) same("what " + what, call.of(studio, what), due[what]);
         for (int what : new int[] {-1, due.length, MIN, MAX}) same("what " + what, call.of(studio, what), NONE);
     }

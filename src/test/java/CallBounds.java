@@ -19,10 +19,10 @@ final class CallBounds {
 
     /** What undo(), at once, makes of a call: nothing is left of it. */
     static void undoneWhole(Bounds.Maker maker, Bounds.Call call) {
-        RepairStudio s = maker.make();
+        CountedStudio s = maker.make();
         call.of(s);
         s.undo();
-        RepairStudio spared = maker.make();
+        CountedStudio spared = maker.make();
         same("undone", Look.difference(Look.all(s), Look.all(spared)), "the same");
     }
 
@@ -49,7 +49,7 @@ final class CallBounds {
     private static void newObject() {
         promise(1);
         says("Creates a studio with one bench, without presses, recipes and objects.");
-        RepairStudio s = new RepairStudio();
+        CountedStudio s = new CountedStudio();
         Bounds.properties(s, (x, what) -> x.count(what), 1, 0, 0, 0, 0, 72, 1, 0, 0, 0, 0, 0, 0);
         same("buffer", Look.bufferLength(s), 0);
         same("error", s.errorCode(), 0);
@@ -57,16 +57,12 @@ final class CallBounds {
         same("output", s.outputByte(0), -1);
         same("nothing to undo", s.undo(), -1);
         for (int place = 0; place <= 1; place++) same("no snapshot", s.restoreSnapshot(place), false);
-        same("each has its own things", Bounds.busy().count(3) + new RepairStudio().count(3), 5);
+        same("each has its own things", Bounds.busy().count(3) + new CountedStudio().count(3), 5);
         same("no one is next", s.next(), -1);
         for (int reason = 0; reason <= 6; reason++) same("none with " + reason, s.objectsWith(reason), 0);
         for (int state = 0; state <= 4; state++) same("none in " + state, s.objectsIn(state), 0);
         same("no script is one", s.play(), 0);
         same("hours go by", s.tick(1), 1);
-        RepairStudio used = new RepairStudio();
-        for (int n = 0; n < 510; n++) used.tick(1);
-        same("the 511th call", used.undo(), 9);
-        same("the 512th call", used.count(4), 509);
     }
 
     private static void append() {
@@ -74,7 +70,7 @@ final class CallBounds {
         says("Appends 20 bytes to the input buffer: the four bytes of each argument, most significant byte first."
                 + " - w0: first four bytes - w1: next four bytes - w2: next four bytes - w3: next four bytes - w4: last four bytes");
         // "object 5 6 0;" and seven blanks, then "life 003", "; press ", "0099;   "
-        RepairStudio s = new RepairStudio();
+        CountedStudio s = new CountedStudio();
         same("empty", s.appendInput(0x6f626a65, 0x63742035, 0x20362030, 0x3b202020, BLANKS), 20);
         same("not empty", s.appendInput(0x6c696665, 0x20303033, 0x3b207072, 0x65737320, 0x3030393b), 40);
         same("read", s.load(), 1);
@@ -94,7 +90,7 @@ final class CallBounds {
         same("at 0", s.errorPosition(), 0);
 
         says("Returns the new length of the buffer; NONE if it would exceed 1000 bytes (then nothing is appended).");
-        RepairStudio t = new RepairStudio();
+        CountedStudio t = new CountedStudio();
         for (int n = 1; n <= 50; n++) same("length", t.appendInput(BLANKS, BLANKS, BLANKS, BLANKS, BLANKS), 20 * n);
         same("no more", t.appendInput(0, 0, 0, 0, 0), -1);
         same("as long", Look.bufferLength(t), 1000);
@@ -103,7 +99,7 @@ final class CallBounds {
             Bounds.refused("behind " + length, () -> TextBounds.blanks(length), -1, x -> x.appendInput(0, 0, 0, 0, 0));
         }
         same("behind 980", TextBounds.blanks(980).appendInput(0, 0, 0, 0, 0), 1000);
-        RepairStudio again = TextBounds.blanks(1000);
+        CountedStudio again = TextBounds.blanks(1000);
         again.play();
         same("a buffer that is read has room", again.appendInput(0, 0, 0, 0, 0), 20);
     }
@@ -111,7 +107,7 @@ final class CallBounds {
     private static void truncate() {
         promise(3);
         says("Shortens the input buffer to its first bytes. - length: 0 to the current length");
-        RepairStudio s = new RepairStudio();
+        CountedStudio s = new CountedStudio();
         Check.input(s, "press 98;press x");
         same("cut", s.truncateInput(9), 9);
         same("its first bytes", s.load(), 0);
@@ -146,8 +142,8 @@ final class CallBounds {
 
         says("TEXT_ERROR if the text has an error (then only the buffer and the error change).");
         for (String text : new String[] {"?", "life 5;benches 3;object 1 1 1;press 1;x", "object 1 0 0;".repeat(17), "life 5;life 6;", "press 0;", "press"}) {
-            RepairStudio s = Bounds.busy();
-            RepairStudio spared = Bounds.busy();
+            CountedStudio s = Bounds.busy();
+            CountedStudio spared = Bounds.busy();
             Check.input(s, text);
             same(text, s.load(), -3);
             same("buffer", Look.bufferLength(s), 0);
@@ -167,10 +163,10 @@ final class CallBounds {
     private static void errors() {
         promise(5);
         says("Returns the error code of the latest load() or play(). Returns 1 to 4; 0 if the text had no error, or if there was none.");
-        same("there was none", new RepairStudio().errorCode(), 0);
+        same("there was none", new CountedStudio().errorCode(), 0);
         String[] texts = {"x", "press 0;", "life 1;life", "press 1;".repeat(7)};
         for (int code = 1; code <= 4; code++) {
-            RepairStudio s = Bounds.busy();
+            CountedStudio s = Bounds.busy();
             Check.input(s, texts[code - 1]);
             s.load();
             same("code", s.errorCode(), code);
@@ -182,7 +178,7 @@ final class CallBounds {
         String[] scripts = {"x", "tick 0;", "", "tick 1;".repeat(41)};
         for (int code = 1; code <= 4; code++) {
             if (code == 3) continue;
-            RepairStudio s = Bounds.busy();
+            CountedStudio s = Bounds.busy();
             Check.input(s, scripts[code - 1]);
             s.play();
             same("code of a script", s.errorCode(), code);
@@ -192,16 +188,16 @@ final class CallBounds {
             s.load();
             same("0 behind a good text", s.errorCode(), 0);
         }
-        RepairStudio s = Bounds.busy();
+        CountedStudio s = Bounds.busy();
         Check.input(s, "cancel 0;");
         same("a command that fails", s.play(), 0);
         same("is no error of the text", s.errorCode(), 0);
 
         promise(6);
         says("Returns the error position of the latest load() or play(). Returns the position; NONE if the text had no error, or if there was none.");
-        same("there was none", new RepairStudio().errorPosition(), -1);
+        same("there was none", new CountedStudio().errorPosition(), -1);
         for (int position : new int[] {0, 1, 500, 999}) {
-            RepairStudio t = Bounds.busy();
+            CountedStudio t = Bounds.busy();
             Check.input(t, " ".repeat(position) + "?");
             t.load();
             same("of load()", t.errorPosition(), position);
@@ -213,7 +209,7 @@ final class CallBounds {
             t.play();
             same("none behind a good script", t.errorPosition(), -1);
         }
-        RepairStudio t = Bounds.busy();
+        CountedStudio t = Bounds.busy();
         Check.input(t, " ".repeat(996) + "life");
         t.load();
         same("the length of the text", t.errorPosition(), 1000);
@@ -226,11 +222,11 @@ final class CallBounds {
         says("Returns a number. - what: 0 benches, 1 presses, 2 recipes, 3 objects, 4 the time, 5 LIFE, 6 benches that are free, 7 presses that are free,"
                 + " 8 records that are kept, 9 steps done since load(), 10 loans that began since load(), 11 hours by which they were late, together,"
                 + " 12 calls that can be undone Returns the number; NONE for any other what.");
-        Bounds.properties(new RepairStudio(), (s, what) -> s.count(what), 1, 0, 0, 0, 0, 72, 1, 0, 0, 0, 0, 0, 0);
+        Bounds.properties(new CountedStudio(), (s, what) -> s.count(what), 1, 0, 0, 0, 0, 72, 1, 0, 0, 0, 0, 0, 0);
         Bounds.properties(Bounds.full(), (s, what) -> s.count(what), 1, 6, 10, 16, 0, 72, 1, 6, 0, 0, 0, 0, 0);
         // of busy(): steps done in the hours 1, 3 and 11, a loan that began at its DUE and one 9 hours late, one wait that ended with 7 lost, one with 0
         Bounds.properties(Bounds.busy(), (s, what) -> s.count(what), 2, 1, 3, 5, 13, 30, 1, 0, 6, 3, 2, 9, 10);
-        RepairStudio s = Bounds.loaded("benches 4;press 9;recipe 1 9 1 0 0 0 1;" + "object 9 1 0;".repeat(4));
+        CountedStudio s = Bounds.loaded("benches 4;press 9;recipe 1 9 1 0 0 0 1;" + "object 9 1 0;".repeat(4));
         for (int object = 0; object < 4; object++) s.plan(object, 0);
         same("all benches are free", s.count(6), 4);
         s.tick(1);
@@ -267,7 +263,7 @@ final class CallBounds {
                 + " 6 the end of its approval (NONE without), 7 the recipe of its step that goes on in the states 1 to 3 (otherwise NONE),"
                 + " 8 the press in which it is (NONE), 9 steps of it that are done since load(), 10 its URGENCY"
                 + " Returns the value; NONE for any other what.");
-        RepairStudio s = Bounds.busy();
+        CountedStudio s = Bounds.busy();
         Bounds.properties(s, (x, what) -> x.object(0, what), 10, 519, 0, 2, 0, 0, -1, 0, -1, 2, 30000);
         Bounds.properties(s, (x, what) -> x.object(1, what), 10, 403, 0, 3, 7, 1, -1, 0, 0, 1, 290);
         Bounds.properties(s, (x, what) -> x.object(2, what), 10, 300, 0, 1, 19, 0, -1, 1, -1, 0, 30000);
@@ -282,7 +278,7 @@ final class CallBounds {
     private static void queued() {
         promise(11);
         says("Returns a recipe of a queue. - object: number of an object - place: from 0 Returns the recipe; NONE if there is none at this place.");
-        RepairStudio s = Bounds.full();
+        CountedStudio s = Bounds.full();
         Bounds.properties(s, (x, place) -> x.queued(3, place));
         s.plan(3, 9);
         Bounds.properties(s, (x, place) -> x.queued(3, place), 9);
@@ -303,7 +299,7 @@ final class CallBounds {
         promise(12);
         says("Returns a number of the loan of an object that waits. - object: number of an object - what: 0 DUE, 1 MINIMUM, 2 LENGTH"
                 + " Returns the number; NONE for any other what, or if no loan waits.");
-        RepairStudio s = Bounds.full();
+        CountedStudio s = Bounds.full();
         Bounds.properties(s, (x, what) -> x.loan(15, what));
         s.lend(15, 20000, 1000, 500);
         Bounds.properties(s, (x, what) -> x.loan(15, what), 20000, 1000, 500);
@@ -323,21 +319,21 @@ final class CallBounds {
         promise(13);
         says("Puts a recipe at the end of the queue of an object. - object: number of an object - recipe: number of a recipe"
                 + " Returns how many are in the queue then;");
-        RepairStudio s = Bounds.full();
+        CountedStudio s = Bounds.full();
         for (int n = 1; n <= 8; n++) {
             same("plan", s.plan(15, n), n);
             same("at the end", s.queued(15, n - 1), n);
             same("the first stays", s.queued(15, 0), 1);
         }
         same("other queues are empty", s.object(14, 5), 0);
-        RepairStudio approved = Bounds.busy();
+        CountedStudio approved = Bounds.busy();
         same("behind two", approved.plan(4, 0), 3);
         same("an approval stays", approved.object(4, 6), 43);
         undoneWhole(Bounds::full, x -> x.plan(3, 0));
 
         says("FULL if there are 8.");
         Bounds.refused("a ninth", TextBounds::fullQueue, -2, x -> x.plan(0, 9));
-        RepairStudio full = TextBounds.fullQueue();
+        CountedStudio full = TextBounds.fullQueue();
         full.tick(1);
         same("one began: there is room", full.plan(0, 9), 8);
         same("and no more", full.plan(0, 9), -2);
@@ -352,7 +348,7 @@ final class CallBounds {
     private static void cancel() {
         promise(14);
         says("Takes the last recipe from the queue of an object; if it was the first one, the approval is gone, too.");
-        RepairStudio s = Bounds.busy();
+        CountedStudio s = Bounds.busy();
         same("the last", s.cancel(4), 1);
         same("one is left", s.object(4, 5), 1);
         same("the approval stays", s.object(4, 6), 43);
@@ -361,7 +357,7 @@ final class CallBounds {
         same("the approval is gone", s.object(4, 6), -1);
         undoneWhole(Bounds::rested, x -> x.cancel(4));
         says("- object: number of an object Returns the recipe;");
-        RepairStudio full = TextBounds.fullQueue();
+        CountedStudio full = TextBounds.fullQueue();
         for (int n = 7; n >= 0; n--) same("of eight", full.cancel(0), n);
         says("REFUSED if the queue is empty.");
         same("no more", full.cancel(0), -4);
@@ -374,7 +370,7 @@ final class CallBounds {
     private static void clearQueue() {
         promise(15);
         says("Empties the queue of an object; its approval is gone, too.");
-        RepairStudio s = Bounds.busy();
+        CountedStudio s = Bounds.busy();
         same("two", s.clearQueue(4), 2);
         same("none is left", s.object(4, 5), 0);
         same("none at its place", s.queued(4, 0), -1);
@@ -384,7 +380,7 @@ final class CallBounds {
         undoneWhole(Bounds::rested, x -> x.clearQueue(4));
         says("- object: number of an object Returns how many recipes were in it;");
         for (int length = 1; length <= 8; length++) {
-            RepairStudio t = Bounds.full();
+            CountedStudio t = Bounds.full();
             for (int n = 0; n < length; n++) t.plan(15, 9);
             same("so many", t.clearQueue(15), length);
             same("none then", t.inQueues(9), 0);
@@ -398,8 +394,8 @@ final class CallBounds {
     }
 
     /** Eight recipes, 0 to 7, in the queue of object 3, whose first step is approved. */
-    private static RepairStudio row(int first) {
-        RepairStudio s = Bounds.loaded("recipe 1 0 0 3 0 0 1;".repeat(10) + "object 1 1 1;".repeat(4));
+    private static CountedStudio row(int first) {
+        CountedStudio s = Bounds.loaded("recipe 1 0 0 3 0 0 1;".repeat(10) + "object 1 1 1;".repeat(4));
         for (int n = 0; n < 8; n++) s.plan(3, n == 0 ? first : n);
         s.approve(3);
         return s;
@@ -411,7 +407,7 @@ final class CallBounds {
         for (int place = 0; place < 8; place++) {
             for (int other = 0; other < 8; other++) {
                 if (place == other) continue;
-                RepairStudio s = row(0);
+                CountedStudio s = row(0);
                 same(place + " and " + other, s.exchange(3, place, other), other);
                 for (int at = 0; at < 8; at++) {
                     same("place " + at + " behind " + place + " and " + other, s.queued(3, at), at == place ? other : at == other ? place : at);
@@ -420,14 +416,14 @@ final class CallBounds {
             }
         }
         for (int k = 0; k <= 1; k++) {
-            RepairStudio s = row(7);
+            CountedStudio s = row(7);
             same("the same recipes", s.exchange(3, 7 * k, 7 - 7 * k), 7);
             same("approval", s.object(3, 6), -1);
         }
         undoneWhole(() -> row(0), x -> x.exchange(3, 0, 7));
 
         says("- object: number of an object - place: from 0 - other: from 0 Returns the recipe at the first place then;");
-        RepairStudio two = Bounds.busy();
+        CountedStudio two = Bounds.busy();
         same("of two", two.exchange(4, 1, 0), 2);
         same("back", two.exchange(4, 0, 1), 2);
         says("REFUSED if there is no such place, or both are the same place.");
@@ -454,7 +450,7 @@ final class CallBounds {
     private static void approve() {
         promise(17);
         says("Approves the next step of an object, in place of an earlier approval: it ends at the time plus LIFE. - object: number of an object Returns the end;");
-        RepairStudio s = row(0);
+        CountedStudio s = row(0);
         same("again", s.approve(3), 72);
         s.tick(1);
         same("it was used", s.object(3, 6), -1);
@@ -462,18 +458,18 @@ final class CallBounds {
         same("is kept", s.object(3, 6), 73);
         s.plan(0, 0);
         same("another object", s.approve(0), 73);
-        RepairStudio kept = Bounds.loaded("recipe 1 0 1 3 0 0 1;object 1 1 1;");
+        CountedStudio kept = Bounds.loaded("recipe 1 0 1 3 0 0 1;object 1 1 1;");
         kept.plan(0, 0);
         for (int time : new int[] {0, 5, 1000}) {
             Bounds.at(time, kept);
             same("at " + time, kept.approve(0), time + 72);
             same("in place of the earlier one at " + time, kept.object(0, 6), time + 72);
         }
-        RepairStudio late = Bounds.at(20000, "life 500;recipe 1 0 0 3 0 0 1;object 1 1 1;");
+        CountedStudio late = Bounds.at(20000, "life 500;recipe 1 0 0 3 0 0 1;object 1 1 1;");
         late.plan(0, 0);
         same("at the end of time", late.approve(0), 20500);
         same("it has not ended", late.reason(0), 0);
-        RepairStudio life = Bounds.loaded("life 1;recipe 1 0 0 3 0 0 1;object 1 1 1;");
+        CountedStudio life = Bounds.loaded("life 1;recipe 1 0 0 3 0 0 1;object 1 1 1;");
         life.plan(0, 0);
         same("the shortest LIFE", life.approve(0), 1);
         undoneWhole(Bounds::rested, x -> x.approve(4));
@@ -482,7 +478,7 @@ final class CallBounds {
         Bounds.refused("an empty queue", Bounds::busy, -4, x -> x.approve(3));
         Bounds.refused("0 and 0", TextBounds::fullQueue, -4, x -> x.approve(0));
         Bounds.refused("0 and 0 at work", Bounds::busy, -4, x -> x.approve(1));
-        RepairStudio t = Bounds.loaded("recipe 1 0 0 3 0 0 1;recipe 1 0 0 2 0 0 1;object 1 1 0;object 1 1 1;object 1 1 2;");
+        CountedStudio t = Bounds.loaded("recipe 1 0 0 3 0 0 1;recipe 1 0 0 2 0 0 1;object 1 1 0;object 1 1 1;object 1 1 2;");
         int[][] due = {{-4, -4}, {72, -4}, {72, 72}};
         for (int object = 0; object < 3; object++) {
             for (int recipe = 0; recipe < 2; recipe++) {
@@ -502,7 +498,7 @@ final class CallBounds {
         promise(18);
         says("Lets a loan wait for an object. - object: number of an object - due: 0 to 20000 - minimum: 0 to 1000 - length: 1 to 500 Returns its URGENCY then;");
         for (int object : new int[] {0, 15}) {
-            RepairStudio s = Bounds.full();
+            CountedStudio s = Bounds.full();
             same("least", s.lend(object, 0, 0, 1), 0);
             Bounds.properties(s, (x, what) -> x.loan(object, what), 0, 0, 1);
             same("URGENCY", s.object(object, 10), 0);
@@ -511,7 +507,7 @@ final class CallBounds {
             Bounds.properties(s, (x, what) -> x.loan(object, what), 20000, 1000, 500);
             same("URGENCY", s.object(object, 10), 20000);
         }
-        RepairStudio s = Bounds.busy();
+        CountedStudio s = Bounds.busy();
         same("while it is lent", s.lend(3, 9, 0, 1), 9);
         same("it is lent on", s.object(3, 4), 49);
         same("while it waits for a press", s.lend(0, 9, 0, 1), 9);
@@ -535,7 +531,7 @@ final class CallBounds {
         promise(19);
         says("Takes the loan of an object back that waits. - object: number of an object Returns its DUE;");
         for (int due : new int[] {0, 1, 20000}) {
-            RepairStudio s = Bounds.full();
+            CountedStudio s = Bounds.full();
             s.lend(15, due, 0, 1);
             same("DUE", s.recall(15), due);
             same("none waits", s.loan(15, 0), -1);
@@ -548,7 +544,7 @@ final class CallBounds {
         says("REFUSED if none waits.");
         Bounds.refused("none", Bounds::busy, -4, x -> x.recall(0));
         Bounds.refused("lent already", Bounds::busy, -4, x -> x.recall(3));
-        RepairStudio s = Bounds.busy();
+        CountedStudio s = Bounds.busy();
         same("one", s.recall(1), 290);
         same("none then", s.recall(1), -4);
         says("Throws IndexOutOfBoundsException if there is no such object");
@@ -558,14 +554,14 @@ final class CallBounds {
     private static void tick() {
         promise(20);
         says("Lets hours go by. - hours: 1 to 1000 Returns the time then;");
-        RepairStudio once = Bounds.busy();
-        RepairStudio oneByOne = Bounds.busy();
+        CountedStudio once = Bounds.busy();
+        CountedStudio oneByOne = Bounds.busy();
         same("forty", once.tick(40), 53);
         for (int n = 1; n <= 40; n++) same("one", oneByOne.tick(1), 13 + n);
         java.util.List<String> got = Look.state(oneByOne);
         same("is as one by one", Look.difference(got, Look.state(once)), "the same");
-        same("least", new RepairStudio().tick(1), 1);
-        same("greatest", new RepairStudio().tick(1000), 1000);
+        same("least", new CountedStudio().tick(1), 1);
+        same("greatest", new CountedStudio().tick(1000), 1000);
         undoneWhole(Bounds::full, x -> x.tick(1000));
 
         says("FULL if it would be greater than 20000.");

@@ -36,7 +36,7 @@ final class Check {
         throwsExactly(what, IllegalArgumentException.class, call);
     }
 
-    static void input(RepairStudio studio, String text) {
+    static void input(CountedStudio studio, String text) {
         studio.truncateInput(0);
         int padded = (text.length() + 19) / 20 * 20;
         int[] words = new int[padded / 4];
@@ -49,8 +49,8 @@ final class Check {
         studio.truncateInput(text.length());
     }
 
-    static RepairStudio loaded(String text) {
-        RepairStudio studio = new RepairStudio();
+    static CountedStudio loaded(String text) {
+        CountedStudio studio = new CountedStudio();
         input(studio, text);
         if (studio.load() < 0) {
             same("the text " + text + " is good", studio.errorPosition(), "no error");

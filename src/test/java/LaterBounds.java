@@ -39,15 +39,15 @@ final class LaterBounds {
     }
 
     /** Two objects for one press: 0 cures in it in the hours 1 to 4, 1 waits from the hour 2 and comes in in 4. */
-    private static RepairStudio waiting() {
-        RepairStudio s = Bounds.loaded("press 9;recipe 1 3 1 0 5 0 1;object 9 100 0;object 9 200 0;");
+    private static CountedStudio waiting() {
+        CountedStudio s = Bounds.loaded("press 9;recipe 1 3 1 0 5 0 1;object 9 100 0;object 9 200 0;");
         for (int object = 0; object <= 1; object++) s.plan(object, 0);
         return s;
     }
 
     /** An object that is lent in the hour ahead of the time, for so many hours: it is back behind as many. */
-    private static RepairStudio lent(int time, int length) {
-        RepairStudio s = Bounds.at(time - 1, "recipe 1 0 0 0 1 0 1;object 1 100 0;");
+    private static CountedStudio lent(int time, int length) {
+        CountedStudio s = Bounds.at(time - 1, "recipe 1 0 0 0 1 0 1;object 1 100 0;");
         s.lend(0, 0, 0, length);
         s.tick(1);
         return s;
@@ -63,7 +63,7 @@ final class LaterBounds {
         Bounds.asked("now", Bounds::full, 0, s -> s.readyAt(15, 1));
         Bounds.asked("now, of 500", Bounds::full, 0, s -> s.readyAt(15, 500));
         Bounds.asked("lent", Bounds::busy, 62, s -> s.readyAt(3, 500));
-        RepairStudio now = lent(1, 1);
+        CountedStudio now = lent(1, 1);
         now.tick(1);
         now.lend(0, 0, 0, 50);
         same("it is so now, though lent in the hour", now.readyAt(0, 1), 2);
@@ -71,7 +71,7 @@ final class LaterBounds {
         now.plan(0, 0);
         // back in the hour 52, at a bench in it until the hour 53
         same("back with a queue, which goes on", now.readyAt(0, 500), 54);
-        RepairStudio both = Bounds.loaded("recipe 1 0 0 0 1 0 1;object 1 100 0;");
+        CountedStudio both = Bounds.loaded("recipe 1 0 0 0 1 0 1;object 1 100 0;");
         both.plan(0, 0);
         both.lend(0, 0, 0, 5);
         // done and lent in the hour 1: behind it is not on the shelf; back in the hour 6
@@ -90,10 +90,10 @@ final class LaterBounds {
         same("at 20000, of more hours", lent(19999, 1).readyAt(0, 500), 20000);
         same("behind 20000, in one hour", lent(20000, 1).readyAt(0, 1), -1);
         same("now, at 20000", Bounds.at(20000, Bounds.full()).readyAt(0, 1), 20000);
-        RepairStudio never = Bounds.at(20000, Bounds.full());
+        CountedStudio never = Bounds.at(20000, Bounds.full());
         never.plan(0, 0);
         same("not now, at 20000", never.readyAt(0, 500), -1);
-        RepairStudio stuck = Bounds.loaded("recipe 1 0 0 3 0 0 1;object 1 1 1;");
+        CountedStudio stuck = Bounds.loaded("recipe 1 0 0 3 0 0 1;object 1 1 1;");
         stuck.plan(0, 0);
         same("not approved", stuck.readyAt(0, 500), -1);
         says("Throws IndexOutOfBoundsException if there is no such object");
@@ -130,20 +130,20 @@ final class LaterBounds {
     private static void lentIn() {
         promise(45);
         says("Forecasts the objects that are lent after some hours, likewise. - hours: 1 to 500 Returns the set, bit k for object k.");
-        same("no objects", new RepairStudio().lentIn(500), 0);
+        same("no objects", new CountedStudio().lentIn(500), 0);
         Bounds.asked("none", Bounds::full, 0, s -> s.lentIn(500));
         Bounds.asked("as now", Bounds::busy, 8, s -> s.lentIn(1));
         // 1 is lent at 290 and back in the hour 295, 4 needs no more than its queue; hours from 13 on
         Bounds.asked("at the DUE of 1", Bounds::busy, 2, s -> s.lentIn(278));
         Bounds.asked("an hour ahead", Bounds::busy, 0, s -> s.lentIn(277));
-        RepairStudio s = Bounds.full();
+        CountedStudio s = Bounds.full();
         for (int object = 0; object < 16; object++) s.lend(object, object, 0, 500);
         for (int hours = 1; hours <= 16; hours++) same("after " + hours, s.lentIn(hours), (1 << hours) - 1);
         same("all after 500", s.lentIn(500), 65535);
         s.tick(1);
         same("the first is back behind 500", s.lentIn(500), 65534);
         same("not behind 499", s.lentIn(499), 65535);
-        RepairStudio last = Bounds.at(19999, Bounds.full());
+        CountedStudio last = Bounds.at(19999, Bounds.full());
         last.lend(15, 19999, 0, 1);
         last.lend(14, 20000, 0, 1);
         same("in the last hour", last.lentIn(1), 1 << 15);
@@ -154,8 +154,8 @@ final class LaterBounds {
         Bounds.range(1, 500, (x, hours) -> x.lentIn(hours));
     }
 
-    private static RepairStudio working(int benches, int objects, int work) {
-        RepairStudio s = Bounds.loaded("benches " + benches + ";recipe " + work + " 0 0 0 0 0 1;" + "object 1 1 0;".repeat(objects));
+    private static CountedStudio working(int benches, int objects, int work) {
+        CountedStudio s = Bounds.loaded("benches " + benches + ";recipe " + work + " 0 0 0 0 0 1;" + "object 1 1 0;".repeat(objects));
         for (int object = 0; object < objects; object++) s.plan(object, 0);
         return s;
     }
@@ -172,14 +172,14 @@ final class LaterBounds {
             }
         }
         // 0 and 1 are at two benches, until the hours 2 and 5; 2 waits for a bench and works for 2 hours
-        RepairStudio s = Bounds.loaded("benches 2;recipe 2 0 0 0 0 0 1;recipe 5 0 0 0 0 0 1;object 1 1 0;object 1 1 0;object 1 1 0;");
+        CountedStudio s = Bounds.loaded("benches 2;recipe 2 0 0 0 0 0 1;recipe 5 0 0 0 0 0 1;object 1 1 0;object 1 1 0;object 1 1 0;");
         s.plan(0, 0);
         s.plan(1, 1);
         s.plan(2, 0);
         s.tick(1);
         int[] due = {1, 1, 3, 2, 2, 2, 1, 1};
         for (int hours = 1; hours <= 8; hours++) same("within " + hours, s.bestBenches(hours), due[hours - 1]);
-        RepairStudio four = working(4, 4, 9);
+        CountedStudio four = working(4, 4, 9);
         four.tick(1);
         for (int object = 0; object < 4; object++) four.plan(object, 0);
         same("four at benches go on with one", four.bestBenches(9), 1);
@@ -189,13 +189,13 @@ final class LaterBounds {
         says("(No hour goes by from the time 20000 on.)");
         same("at 20000", Bounds.at(20000, working(1, 4, 40)).bestBenches(200), 1);
         for (int time = 19998; time <= 19999; time++) {
-            RepairStudio late = Bounds.at(time, Bounds.full());
+            CountedStudio late = Bounds.at(time, Bounds.full());
             for (int object = 0; object < 3; object++) late.plan(object, 0);
             same("from " + time, late.bestBenches(200), time == 19998 ? 3 : 1);
         }
         says("- hours: 1 to 200 Returns the least such number of benches.");
         same("nothing to do", Bounds.full().bestBenches(200), 1);
-        same("no objects", new RepairStudio().bestBenches(1), 1);
+        same("no objects", new CountedStudio().bestBenches(1), 1);
         same("too short for any", working(1, 4, 2).bestBenches(2), 1);
         same("two in three hours", working(4, 2, 2).bestBenches(3), 2);
         same("two in five hours", working(4, 2, 2).bestBenches(5), 1);
@@ -212,23 +212,23 @@ final class LaterBounds {
         promise(47);
         says("Forecasts the time at which first no object is in the states 1 to 3 and none can begin a step, likewise."
                 + " - hours: 1 to 500, how many hours are looked at Returns the time (the present one if it is so now);");
-        same("no objects", new RepairStudio().quietAt(1), 0);
+        same("no objects", new CountedStudio().quietAt(1), 0);
         Bounds.asked("now", Bounds::full, 0, s -> s.quietAt(1));
         Bounds.asked("at work, waiting and curing", LaterBounds::waiting, 8, s -> s.quietAt(500));
-        RepairStudio none = lent(1, 500);
+        CountedStudio none = lent(1, 500);
         same("lent is quiet", none.quietAt(1), 1);
         none.plan(0, 0);
         same("what is lent cannot begin", none.quietAt(1), 1);
         for (int state = 1; state <= 3; state++) {
-            RepairStudio s = waiting();
+            CountedStudio s = waiting();
             s.tick(state == 1 ? 1 : 4);
             if (state == 2) same("0 cures, 1 waits", s.objectsIn(2) + s.objectsIn(3), 3);
             same("in the state " + state, s.quietAt(500), 8);
         }
-        RepairStudio begins = Bounds.loaded("recipe 1 0 0 0 0 0 1;object 1 1 0;");
+        CountedStudio begins = Bounds.loaded("recipe 1 0 0 0 0 0 1;object 1 1 0;");
         begins.plan(0, 0);
         same("one can begin", begins.quietAt(500), 2);
-        RepairStudio cannot = Bounds.loaded("recipe 1 0 0 3 0 0 1;recipe 1 1 1 0 0 0 1;object 1 1 1;object 1 1 0;");
+        CountedStudio cannot = Bounds.loaded("recipe 1 0 0 3 0 0 1;recipe 1 1 1 0 0 0 1;object 1 1 1;object 1 1 0;");
         cannot.plan(0, 0);
         cannot.plan(1, 1);
         same("neither can begin", cannot.quietAt(1), 0);
@@ -240,7 +240,7 @@ final class LaterBounds {
         same("an hour too early", waiting().quietAt(7), -1);
         same("one hour", waiting().quietAt(1), -1);
         for (int work = 18; work <= 20; work++) {
-            RepairStudio s = Bounds.loaded("recipe 40 200 0 0 0 0 1;recipe " + work + " 0 0 0 0 0 1;object 1 1 0;");
+            CountedStudio s = Bounds.loaded("recipe 40 200 0 0 0 0 1;recipe " + work + " 0 0 0 0 0 1;object 1 1 0;");
             s.plan(0, 0);
             s.plan(0, 0);
             s.plan(0, 1);
@@ -249,12 +249,12 @@ final class LaterBounds {
             same("499 hours", s.quietAt(499), work == 18 ? 499 : -1);
         }
         for (int from = 19998; from <= 19999; from++) {
-            RepairStudio late = Bounds.at(from, Bounds.loaded("recipe 1 0 0 0 0 0 1;object 1 1 0;"));
+            CountedStudio late = Bounds.at(from, Bounds.loaded("recipe 1 0 0 0 0 0 1;object 1 1 0;"));
             late.plan(0, 0);
             same("from " + from, late.quietAt(500), from == 19998 ? 20000 : -1);
         }
         same("now, at 20000", Bounds.at(20000, Bounds.full()).quietAt(500), 20000);
-        RepairStudio late = Bounds.at(20000, Bounds.full());
+        CountedStudio late = Bounds.at(20000, Bounds.full());
         late.plan(0, 0);
         same("not now, at 20000", late.quietAt(500), -1);
         says("Throws IllegalArgumentException if hours is out of range");
@@ -265,7 +265,7 @@ final class LaterBounds {
         promise(48);
         says("Tells by how many hours the loan of an object that waits is late now. - object: number of an object"
                 + " Returns the time minus DUE, but at least 0; NONE if no loan waits.");
-        RepairStudio s = Bounds.full();
+        CountedStudio s = Bounds.full();
         same("no loan", s.lateness(15), -1);
         s.lend(15, 3, 1000, 1);
         int[] due = {0, 0, 0, 0, 1, 2};
@@ -277,7 +277,7 @@ final class LaterBounds {
         same("no loan again", s.lateness(15), -1);
         Bounds.asked("far ahead", Bounds::busy, 0, x -> x.lateness(4));
         Bounds.asked("lent already", Bounds::busy, -1, x -> x.lateness(3));
-        RepairStudio late = Bounds.at(20000, Bounds.full());
+        CountedStudio late = Bounds.at(20000, Bounds.full());
         late.lend(0, 0, 0, 1);
         late.lend(1, 20000, 0, 1);
         late.lend(2, 19999, 0, 1);
@@ -291,8 +291,8 @@ final class LaterBounds {
     private static void urgentLoans() {
         promise(49);
         says("Finds the object with the least URGENCY of those for which a loan waits. Returns the object, of several the lowest one; NONE if no loan waits.");
-        same("no objects", new RepairStudio().mostUrgent(), -1);
-        RepairStudio s = Bounds.full();
+        same("no objects", new CountedStudio().mostUrgent(), -1);
+        CountedStudio s = Bounds.full();
         same("no loan", s.mostUrgent(), -1);
         s.lend(15, 20000, 1000, 1);
         same("only one", s.mostUrgent(), 15);
@@ -307,7 +307,7 @@ final class LaterBounds {
         s.lend(7, 0, 1000, 1);
         same("0", s.mostUrgent(), 7);
         Bounds.asked("busy", Bounds::busy, 1, x -> x.mostUrgent());
-        RepairStudio lent = Bounds.full();
+        CountedStudio lent = Bounds.full();
         lent.lend(0, 0, 0, 9);
         lent.lend(1, 5, 1000, 9);
         lent.tick(1);
@@ -317,10 +317,10 @@ final class LaterBounds {
     private static void waitingLoan() {
         promise(50);
         says("Returns the k-th object in the order of the loans that wait: by DUEs, then by numbers. - k: from 0 Returns the object; NONE if there are not so many.");
-        Bounds.properties(new RepairStudio(), (x, k) -> x.waitingLoan(k));
+        Bounds.properties(new CountedStudio(), (x, k) -> x.waitingLoan(k));
         Bounds.properties(Bounds.full(), (x, k) -> x.waitingLoan(k));
         Bounds.properties(Bounds.busy(), (x, k) -> x.waitingLoan(k), 1, 4);
-        RepairStudio s = Bounds.full();
+        CountedStudio s = Bounds.full();
         int[] dues = {5, 20000, 0, 5, 7, 20000, 0, 19999, 5, 6, 4, 3, 2, 1, 1, 0};
         for (int object = 0; object < 16; object++) s.lend(object, dues[object], 1000, 1);
         Bounds.properties(s, (x, k) -> x.waitingLoan(k), 2, 6, 15, 13, 14, 12, 11, 10, 0, 3, 8, 9, 4, 7, 1, 5);
@@ -338,7 +338,7 @@ final class LaterBounds {
             int recipe = k;
             Bounds.asked("recipe " + k, Bounds::busy, uses[k], s -> s.uses(recipe));
         }
-        RepairStudio s = Bounds.full();
+        CountedStudio s = Bounds.full();
         s.plan(0, 9);
         s.tick(1);
         same("not done yet", s.uses(9), 0);
@@ -347,7 +347,7 @@ final class LaterBounds {
         same("more than records are kept", HourBounds.withRecords(207).uses(0), 207);
         s.undo();
         same("undone", s.uses(9), 0);
-        RepairStudio again = HourBounds.withRecords(3);
+        CountedStudio again = HourBounds.withRecords(3);
         Check.input(again, "recipe 1 0 0 0 0 0 1;");
         again.load();
         same("since load()", again.uses(0), 0);
@@ -358,7 +358,7 @@ final class LaterBounds {
         says("Counts how often an object came into a press since load(). - press: number of a press Returns the number.");
         same("none", Bounds.full().pressUse(5), 0);
         Bounds.asked("two", Bounds::busy, 2, x -> x.pressUse(0));
-        RepairStudio press = waiting();
+        CountedStudio press = waiting();
         int[] due = {0, 0, 1, 1, 1, 2, 2};
         for (int time = 0; time < due.length; time++) {
             same("at " + time, press.pressUse(0), due[time]);
@@ -372,7 +372,7 @@ final class LaterBounds {
 
         promise(53);
         says("Counts how often a recipe stands in the queues of all objects. - recipe: number of a recipe Returns the number.");
-        RepairStudio queues = Bounds.full();
+        CountedStudio queues = Bounds.full();
         same("none", queues.inQueues(9), 0);
         for (int object = 0; object < 16; object++) {
             for (int n = 0; n < 8; n++) queues.plan(object, 9);
@@ -398,13 +398,13 @@ final class LaterBounds {
         says("Returns in how many hours a press is free. - press: number of a press Returns REST of the object in it; 0 if it is free.");
         same("free", Bounds.full().dryIn(5), 0);
         Bounds.asked("busy", Bounds::busy, 7, s -> s.dryIn(0));
-        RepairStudio s = waiting();
+        CountedStudio s = waiting();
         int[] due = {0, 0, 3, 2, 1, 3, 2, 1, 0, 0};
         for (int time = 0; time < due.length; time++) {
             same("at " + time, s.dryIn(0), due[time]);
             s.tick(1);
         }
-        RepairStudio greatest = Bounds.loaded("press 9;press 1;recipe 1 200 1 0 0 0 1;object 1 1 0;");
+        CountedStudio greatest = Bounds.loaded("press 9;press 1;recipe 1 200 1 0 0 0 1;object 1 1 0;");
         greatest.plan(0, 0);
         greatest.tick(2);
         same("greatest", greatest.dryIn(1), 200);
@@ -422,7 +422,7 @@ final class LaterBounds {
             int object = k;
             Bounds.asked("object " + k, Bounds::busy, due[k], s -> s.rank(object));
         }
-        RepairStudio s = Bounds.loaded("object 1 1000 0;" + "object 1 999 0;".repeat(14) + "object 1 0 0;");
+        CountedStudio s = Bounds.loaded("object 1 1000 0;" + "object 1 999 0;".repeat(14) + "object 1 0 0;");
         same("the best of sixteen", s.rank(0), 15);
         same("those between", s.rank(1), 1);
         same("the same", s.rank(14), 1);
@@ -435,7 +435,7 @@ final class LaterBounds {
         says("Returns the objects whose SCORE is less than a bound. - bound: any number Returns the set, bit k for object k.");
         int[][] sets = {{Bounds.MIN, 0}, {-1, 0}, {0, 0}, {1, 32768}, {999, 32768}, {1000, 65534}, {1001, 65535}, {Bounds.MAX, 65535}};
         for (int[] set : sets) same("bound " + set[0], s.below(set[0]), set[1]);
-        same("no objects", new RepairStudio().below(Bounds.MAX), 0);
+        same("no objects", new CountedStudio().below(Bounds.MAX), 0);
         Bounds.asked("busy", Bounds::busy, 30, x -> x.below(519));
         Bounds.asked("and one", Bounds::busy, 31, x -> x.below(520));
     }
@@ -447,10 +447,10 @@ final class LaterBounds {
         for (int k = 0; k <= 4; k++) {
             int state = k;
             Bounds.asked("state " + k, Bounds::busy, sets[k], s -> s.objectsIn(state));
-            same("no objects in " + k, new RepairStudio().objectsIn(k), 0);
+            same("no objects in " + k, new CountedStudio().objectsIn(k), 0);
             same("all sixteen in 0, in " + k, Bounds.full().objectsIn(k), k == 0 ? 65535 : 0);
         }
-        RepairStudio s = Bounds.full();
+        CountedStudio s = Bounds.full();
         s.lend(15, 0, 0, 1);
         s.tick(1);
         same("the last one", s.objectsIn(4), 32768);
@@ -467,13 +467,13 @@ final class LaterBounds {
         same("greatest", Bounds.loaded("object 1 1000 0;".repeat(16)).meanScore(), 1000.0);
         same("not whole", Bounds.loaded("object 1 1 0;object 1 0 0;object 1 0 0;").meanScore(), 1.0 / 3.0);
         same("a sixteenth", Bounds.loaded("object 1 1 0;" + "object 1 0 0;".repeat(15)).meanScore(), 0.0625);
-        Bounds.asked("busy", Bounds::busy, 1502.0 / 5.0, RepairStudio::meanScore);
+        Bounds.asked("busy", Bounds::busy, 1502.0 / 5.0, CountedStudio::meanScore);
         says("Throws ArithmeticException if there are no objects");
-        Bounds.refused("a new one", RepairStudio::new, Bounds.TOO_GREAT, RepairStudio::meanScore);
-        Bounds.refused("no more", () -> Bounds.loaded("press 1;"), Bounds.TOO_GREAT, RepairStudio::meanScore);
+        Bounds.refused("a new one", CountedStudio::new, Bounds.TOO_GREAT, CountedStudio::meanScore);
+        Bounds.refused("no more", () -> Bounds.loaded("press 1;"), Bounds.TOO_GREAT, CountedStudio::meanScore);
     }
 
-    private static String output(RepairStudio s) {
+    private static String output(CountedStudio s) {
         StringBuilder text = new StringBuilder();
         for (int at = 0; s.outputByte(at) >= 0; at++) text.append((char) s.outputByte(at));
         return text.toString();
@@ -483,7 +483,7 @@ final class LaterBounds {
         promise(59);
         says("Writes the queue of an object to the output, in place of what was there: for each recipe its number,"
                 + " behind it an exclamation mark if the step needs an approval, with commas between them. - object: number of an object Returns the number of bytes.");
-        RepairStudio s = Bounds.loaded("recipe 1 0 0 0 0 0 1;recipe 1 0 0 3 0 0 1;recipe 1 0 0 2 0 0 1;" + "recipe 1 0 0 3 0 0 1;".repeat(7)
+        CountedStudio s = Bounds.loaded("recipe 1 0 0 0 0 0 1;recipe 1 0 0 3 0 0 1;recipe 1 0 0 2 0 0 1;" + "recipe 1 0 0 3 0 0 1;".repeat(7)
                 + "object 1 1 0;object 1 1 1;object 1 1 3;");
         same("an empty queue", s.write(0), 0);
         same("nothing", output(s), "");
@@ -506,7 +506,7 @@ final class LaterBounds {
         s.clearQueue(1);
         same("an empty queue again", s.write(1), 0);
         same("nothing is left", output(s), "");
-        RepairStudio busy = Bounds.busy();
+        CountedStudio busy = Bounds.busy();
         java.util.List<String> before = Look.state(busy);
         same("what goes on is not in it", busy.write(2), 0);
         same("with an approval", busy.write(4), 4);
@@ -519,9 +519,9 @@ final class LaterBounds {
     private static void outputByte() {
         promise(60);
         says("Returns a byte of the output. - index: from 0 Returns the byte; NONE if there is no such byte.");
-        Bounds.properties(new RepairStudio(), (x, index) -> x.outputByte(index));
+        Bounds.properties(new CountedStudio(), (x, index) -> x.outputByte(index));
         Bounds.properties(Bounds.busy(), (x, index) -> x.outputByte(index), 50, 33, 44, 49);
-        RepairStudio s = Bounds.loaded("recipe 1 0 0 3 0 0 1;".repeat(10) + "object 1 1 1;object 1 1 1;");
+        CountedStudio s = Bounds.loaded("recipe 1 0 0 3 0 0 1;".repeat(10) + "object 1 1 1;object 1 1 1;");
         for (int n = 0; n < 8; n++) s.plan(0, n + 2);
         s.write(0);
         Bounds.properties(s, (x, index) -> x.outputByte(index), 50, 33, 44, 51, 33, 44, 52, 33, 44, 53, 33, 44, 54, 33, 44, 55, 33, 44, 56, 33, 44, 57, 33);
@@ -532,12 +532,12 @@ final class LaterBounds {
     /** A script fails at its command, and the studio is as if only those ahead of it had been called. */
     private static void fails(Bounds.Maker maker, String ahead, String command) {
         int done = ahead.length() - ahead.replace(";", "").length();
-        RepairStudio s = maker.make();
+        CountedStudio s = maker.make();
         Check.input(s, ahead + command + "tick 1;plan 0 0;");
         same(ahead + command, s.play(), done);
         same("no error of the text", s.errorCode() + s.errorPosition(), -1);
         same("the buffer is empty", Look.bufferLength(s), 0);
-        RepairStudio spared = maker.make();
+        CountedStudio spared = maker.make();
         Check.input(spared, ahead);
         same(ahead, spared.play(), done);
         same("what was done stays done: " + ahead + command, Look.difference(Look.further(s), Look.further(spared)), "the same");
@@ -556,18 +556,18 @@ final class LaterBounds {
         }
         fails(TextBounds::fullQueue, "plan 1 0;", "plan 0 0;");
         fails(TextBounds::fullQueue, "plan 1 0;", "approve 0;");
-        fails(RepairStudio::new, "tick 1;", "plan 0 0;");
-        fails(RepairStudio::new, "", "cancel 0;");
+        fails(CountedStudio::new, "tick 1;", "plan 0 0;");
+        fails(CountedStudio::new, "", "cancel 0;");
 
         says("Returns the number of commands that were done, the one that failed not included;");
         for (int length : new int[] {0, 1, 2, 39, 40}) {
-            RepairStudio s = Bounds.full();
+            CountedStudio s = Bounds.full();
             Check.input(s, "tick 1;".repeat(length));
             same("all of " + length, s.play(), length);
             same("hours", s.count(4), length);
             same("each can be undone", s.count(12), Math.min(10, length));
         }
-        RepairStudio last = Bounds.full();
+        CountedStudio last = Bounds.full();
         Check.input(last, "tick 1;".repeat(39) + "recall 0;");
         same("the fortieth fails", last.play(), 39);
         Check.input(last, "recall 0;" + "tick 1;".repeat(39));
@@ -575,8 +575,8 @@ final class LaterBounds {
 
         says("TEXT_ERROR if the text has an error (then only the buffer and the error change).");
         for (String text : new String[] {"?", "tick 1;plan 0 0;tick", "tick 1;".repeat(41), "tick 1;tick 1001;", "plan 0 0;plan 16 0;", "tick 1;life 5;"}) {
-            RepairStudio s = Bounds.busy();
-            RepairStudio spared = Bounds.busy();
+            CountedStudio s = Bounds.busy();
+            CountedStudio spared = Bounds.busy();
             Check.input(s, text);
             same(text, s.play(), -3);
             same("a buffer", Look.bufferLength(s), 0);
@@ -594,10 +594,10 @@ final class LaterBounds {
     private static void undo() {
         promise(62);
         says("Undoes the latest call that can be undone. Returns the number of calls that can still be undone; NONE if there is none.");
-        Bounds.refused("a new one", RepairStudio::new, -1, s -> s.undo());
+        Bounds.refused("a new one", CountedStudio::new, -1, s -> s.undo());
         Bounds.refused("nothing was called", Bounds::full, -1, s -> s.undo());
         for (int calls = 1; calls <= 12; calls++) {
-            RepairStudio s = Bounds.full();
+            CountedStudio s = Bounds.full();
             for (int n = 0; n < calls; n++) s.plan(n, n % 10);
             int kept = Math.min(10, calls);
             for (int n = kept - 1; n >= 0; n--) {
@@ -608,7 +608,7 @@ final class LaterBounds {
             same("no more of " + calls, s.undo(), -1);
             same("what is older stays", s.objectsWith(0), (1 << (calls - kept)) - 1);
         }
-        RepairStudio hundred = HourBounds.withRecords(100);
+        CountedStudio hundred = HourBounds.withRecords(100);
         hundred.plan(0, 0);
         hundred.tick(2);
         same("the oldest record is pushed out", hundred.record(0, 5), 2);
@@ -616,7 +616,7 @@ final class LaterBounds {
         same("it is back", hundred.record(0, 5), 1);
         same("the latest is gone", hundred.record(99, 5), 100);
         same("as many as ahead of it", hundred.count(8), 100);
-        RepairStudio s = Bounds.busy();
+        CountedStudio s = Bounds.busy();
         Check.input(s, "press");
         s.load();
         same("a text that is refused changes nothing of it", s.undo(), 9);
@@ -636,15 +636,17 @@ final class LaterBounds {
         same("none behind a text that is taken", s.undo(), -1);
     }
 
-    private static int wrapped(RepairStudio s) {
+    private static int wrapped(CountedStudio s) {
         java.math.BigInteger digest = java.math.BigInteger.ONE;
         java.util.List<Integer> terms = new java.util.ArrayList<>();
+        s.looking(true);
         terms.add(s.count(4));
         for (int object = 0; object < s.count(3); object++) {
             terms.add(s.object(object, 1));
             terms.add(s.object(object, 3));
             terms.add(s.object(object, 4));
         }
+        s.looking(false);
         for (int term : terms) digest = digest.multiply(java.math.BigInteger.valueOf(31)).add(java.math.BigInteger.valueOf(term));
         return digest.intValue();
     }
@@ -653,14 +655,14 @@ final class LaterBounds {
         promise(63);
         says("Returns a digest: begin with 1; take 31 times the digest plus the time, then for each object 31 times that plus SCORE,"
                 + " then 31 times that plus its state, then 31 times that plus REST (in int arithmetic, overflow wraps). Returns the digest.");
-        same("no objects", new RepairStudio().digest(), 31);
-        same("no objects at 20000", Bounds.at(20000, new RepairStudio()).digest(), 20031);
+        same("no objects", new CountedStudio().digest(), 31);
+        same("no objects at 20000", Bounds.at(20000, new CountedStudio()).digest(), 20031);
         same("one", Bounds.loaded("object 1 0 0;").digest(), 923521);
         same("one with 1000", Bounds.loaded("object 1 1000 0;").digest(), 1884521);
         same("lent for 500 hours", lent(1, 500).digest(), ((32 * 31 + 100) * 31 + 4) * 31 + 500);
         // 923521 * 29791 is 27512614111, which is 6 times two to the 32nd and 1742810335
         same("two: the first overflow", Bounds.loaded("object 1 0 0;object 1 0 0;").digest(), 1742810335);
-        RepairStudio[] studios = {Bounds.busy(), Bounds.full(), Bounds.at(20000, Bounds.full()), waiting(), lent(19999, 500)};
+        CountedStudio[] studios = {Bounds.busy(), Bounds.full(), Bounds.at(20000, Bounds.full()), waiting(), lent(19999, 500)};
         boolean negative = false;
         for (int k = 0; k < studios.length; k++) {
             for (int hour = 0; hour < 9; hour++) {
@@ -670,18 +672,18 @@ final class LaterBounds {
             }
         }
         same("some are negative", negative, true);
-        Bounds.asked("asking changes nothing", Bounds::busy, Bounds.busy().digest(), RepairStudio::digest);
+        Bounds.asked("asking changes nothing", Bounds::busy, Bounds.busy().digest(), CountedStudio::digest);
     }
 
     /** The state but for the number of calls that can be undone. */
-    private static java.util.List<String> state(RepairStudio s) {
+    private static java.util.List<String> state(CountedStudio s) {
         java.util.List<String> lines = new java.util.ArrayList<>(Look.state(s));
         lines.removeIf(line -> line.startsWith("count 12:"));
         return lines;
     }
 
     /** All kinds of things become different. */
-    private static void change(RepairStudio s) {
+    private static void change(CountedStudio s) {
         s.clearQueue(4);
         for (int object = 0; object < 5; object++) {
             s.lend(object, 1, 0, 3);
@@ -698,8 +700,8 @@ final class LaterBounds {
         promise(64);
         says("Saves a snapshot of everything except the input buffer, the error, the output and the snapshots;");
         for (int place = 0; place <= 1; place++) {
-            RepairStudio s = Bounds.busy();
-            RepairStudio spared = Bounds.busy();
+            CountedStudio s = Bounds.busy();
+            CountedStudio spared = Bounds.busy();
             same("saved", s.saveSnapshot(place), true);
             same("nothing is different by it", Look.difference(Look.all(s), Look.all(spared)), "the same");
             change(s);
@@ -718,7 +720,7 @@ final class LaterBounds {
         }
 
         says("it replaces an earlier one in the same place.");
-        RepairStudio s = Bounds.full();
+        CountedStudio s = Bounds.full();
         for (int n = 1; n <= 5; n++) {
             s.tick(1);
             same("saved in 0", s.saveSnapshot(0), true);
@@ -736,12 +738,12 @@ final class LaterBounds {
 
         says("- place: 0 or 1 Returns true; false if place is out of range.");
         for (int place = 0; place <= 1; place++) {
-            same("place " + place, new RepairStudio().saveSnapshot(place), true);
+            same("place " + place, new CountedStudio().saveSnapshot(place), true);
             same("again " + place, Bounds.busy().saveSnapshot(place), true);
         }
         for (int bad : new int[] {-1, 2, Bounds.MIN, Bounds.MAX}) {
             Bounds.refused("place " + bad, Bounds::busy, false, x -> x.saveSnapshot(bad));
-            Bounds.refused("place " + bad + " of a new one", RepairStudio::new, false, x -> x.saveSnapshot(bad));
+            Bounds.refused("place " + bad + " of a new one", CountedStudio::new, false, x -> x.saveSnapshot(bad));
         }
     }
 
@@ -749,8 +751,8 @@ final class LaterBounds {
         promise(65);
         says("Restores a snapshot, which stays;");
         for (int place = 0; place <= 1; place++) {
-            RepairStudio s = Bounds.busy();
-            RepairStudio spared = Bounds.busy();
+            CountedStudio s = Bounds.busy();
+            CountedStudio spared = Bounds.busy();
             s.saveSnapshot(place);
             for (int turn = 0; turn < 3; turn++) {
                 change(s);
@@ -762,7 +764,7 @@ final class LaterBounds {
             change(spared);
             same("goes on", Look.difference(state(s), state(spared)), "the same");
         }
-        RepairStudio records = HourBounds.withRecords(105);
+        CountedStudio records = HourBounds.withRecords(105);
         records.saveSnapshot(0);
         for (int n = 0; n < 30; n++) {
             records.lend(1, 0, 0, 1);
@@ -771,7 +773,7 @@ final class LaterBounds {
         same("the latest is another one", records.record(99, 0), 1);
         records.restoreSnapshot(0);
         for (int index = 0; index < 100; index++) same("record " + index, records.record(index, 5), index + 6);
-        RepairStudio otherwise = Bounds.loaded("recipe 1 0 0 0 1 0 1;object 1 100 0;");
+        CountedStudio otherwise = Bounds.loaded("recipe 1 0 0 0 1 0 1;object 1 100 0;");
         otherwise.saveSnapshot(1);
         otherwise.plan(0, 0);
         otherwise.lend(0, 30, 77, 9);
@@ -786,14 +788,14 @@ final class LaterBounds {
         same("that one is back", otherwise.record(0, 1), 0);
         int[] loan = {30, 77, 9};
         for (int what = 0; what < 3; what++) same("number " + what + " of its loan", otherwise.loan(0, what), loan[what]);
-        RepairStudio fresh = new RepairStudio();
+        CountedStudio fresh = new CountedStudio();
         fresh.saveSnapshot(1);
         fresh.tick(7);
         same("a new one", fresh.restoreSnapshot(1), true);
-        same("is new", Look.difference(Look.all(fresh), Look.all(new RepairStudio())), "the same");
+        same("is new", Look.difference(Look.all(fresh), Look.all(new CountedStudio())), "the same");
 
         says("nothing can be undone then.");
-        RepairStudio s = Bounds.busy();
+        CountedStudio s = Bounds.busy();
         s.saveSnapshot(0);
         s.restoreSnapshot(0);
         same("none of ten", s.count(12), 0);
@@ -806,19 +808,19 @@ final class LaterBounds {
         for (int bad : new int[] {-1, 2, Bounds.MIN, Bounds.MAX}) Bounds.refused("place " + bad, Bounds::busy, false, x -> x.restoreSnapshot(bad));
         for (int k = 0; k <= 1; k++) {
             int place = k;
-            Bounds.refused("none in " + k, RepairStudio::new, false, x -> x.restoreSnapshot(place));
+            Bounds.refused("none in " + k, CountedStudio::new, false, x -> x.restoreSnapshot(place));
             Bounds.refused("only in the other of " + k, () -> {
-                RepairStudio one = Bounds.full();
+                CountedStudio one = Bounds.full();
                 one.saveSnapshot(1 - place);
                 one.plan(0, 0);
                 return one;
             }, false, x -> x.restoreSnapshot(place));
-            RepairStudio loaded = Bounds.busy();
+            CountedStudio loaded = Bounds.busy();
             Check.input(loaded, "press 5;");
             loaded.load();
             same("gone by load() in " + k, loaded.restoreSnapshot(place), false);
             same("nothing is different by it", loaded.press(0, 0), 5);
-            RepairStudio refused = Bounds.busy();
+            CountedStudio refused = Bounds.busy();
             Check.input(refused, "press;");
             refused.load();
             same("not gone by a text that is refused in " + k, refused.restoreSnapshot(place), true);

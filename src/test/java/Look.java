@@ -1,50 +1,54 @@
 import java.util.ArrayList;
 import java.util.List;
 
-/**
- * All that can be seen of a studio, line by line; looking changes nothing. A look may take more than the 512
- * calls that the document promises to answer: RepairStudio does not count its calls.
- */
+/** All that can be seen of a studio, line by line; looking changes nothing. */
 final class Look {
-    private final RepairStudio studio;
+    private final CountedStudio studio;
     private final List<String> lines = new ArrayList<>();
 
-    private Look(RepairStudio seen) {
+    private Look(CountedStudio seen) {
         studio = seen;
     }
 
     /** What undo() and snapshots bring back, and the number of calls that can be undone. */
-    static List<String> state(RepairStudio studio) {
+    static List<String> state(CountedStudio studio) {
         Look look = new Look(studio);
+        studio.looking(true);
         look.numbers();
         look.things();
         for (int object = 0; object < studio.count(3); object++) look.object(object);
         look.records();
         look.ahead();
+        studio.looking(false);
         return look.lines;
     }
 
     /** Also the output, the error and the length of the buffer. */
-    static List<String> all(RepairStudio studio) {
+    static List<String> all(CountedStudio studio) {
         Look look = new Look(studio);
         look.lines.addAll(state(studio));
+        studio.looking(true);
         StringBuilder output = new StringBuilder();
         for (int at = 0; at < 30; at++) output.append(studio.outputByte(at)).append(' ');
         look.line("output", output);
         look.line("error", studio.errorCode() + " at " + studio.errorPosition());
+        studio.looking(false);
         look.line("buffer", bufferLength(studio));
         return look.lines;
     }
 
-    /** Cutting the buffer at its own length leaves it as it is. */
-    static int bufferLength(RepairStudio studio) {
-        int length = 1000;
-        while (studio.truncateInput(length) < 0) length--;
+    /** What is appended is cut off again; cutting the buffer at its own length leaves it as it is. */
+    static int bufferLength(CountedStudio studio) {
+        studio.looking(true);
+        int length = studio.appendInput(0, 0, 0, 0, 0) - 20;
+        if (length < 0) length = 1000;
+        while (studio.truncateInput(length) < 0 && length > 0) length--;
+        studio.looking(false);
         return length;
     }
 
     /** Also what is behind each undo(), behind each restoreSnapshot() and behind the text in the buffer, played. */
-    static List<String> further(RepairStudio studio) {
+    static List<String> further(CountedStudio studio) {
         List<String> lines = new ArrayList<>(all(studio));
         for (int undone = 0; undone <= 10; undone++) {
             lines.add("undo: " + studio.undo());
@@ -75,7 +79,7 @@ final class Look {
         for (int what = 0; what <= 12; what++) line("count " + what, studio.count(what));
         line("digest", studio.digest());
         line("next", studio.next());
-        line("bills", Bounds.answer(studio, RepairStudio::allBills));
+        line("bills", Bounds.answer(studio, CountedStudio::allBills));
         for (int reason = 0; reason <= 6; reason++) line("objects with " + reason, studio.objectsWith(reason));
         for (int k = 0; k <= studio.count(3); k++) line("waiting loan " + k, studio.waitingLoan(k));
     }

@@ -15,7 +15,7 @@ public final class PromisesTest {
         Check.report("PromisesTest");
     }
 
-    private static RepairStudio shop() {
+    private static CountedStudio shop() {
         return Check.loaded(SHOP);
     }
 
@@ -25,7 +25,7 @@ public final class PromisesTest {
 
     /** A text that load() or play() refuses, with the code and the position that are due. */
     private static void refused(boolean script, String text, int code, int position) {
-        RepairStudio s = shop();
+        CountedStudio s = shop();
         Check.input(s, text);
         same("refuses " + text, script ? s.play() : s.load(), RepairStudio.TEXT_ERROR);
         same("code of " + text, s.errorCode(), code);
@@ -39,7 +39,7 @@ public final class PromisesTest {
     }
 
     static void promise1() {
-        RepairStudio s = new RepairStudio();
+        CountedStudio s = new CountedStudio();
         int[] due = {1, 0, 0, 0, 0, 72, 1, 0, 0, 0, 0, 0, 0};
         for (int what = 0; what < due.length; what++) same("1: count " + what, s.count(what), due[what]);
         same("1: error", s.errorCode(), 0);
@@ -50,7 +50,7 @@ public final class PromisesTest {
     }
 
     static void promise2() {
-        RepairStudio s = new RepairStudio();
+        CountedStudio s = new CountedStudio();
         for (int n = 1; n <= 49; n++) same("2: append", s.appendInput(0x20202020, 0x20202020, 0x20202020, 0x20202020, 0x20202020), 20 * n);
         same("2: to 981", s.truncateInput(980), 980);
         same("2: full", s.appendInput(0x20202020, 0x20202020, 0x20202020, 0x20202020, 0x20202020), 1000);
@@ -70,7 +70,7 @@ public final class PromisesTest {
     }
 
     static void promise3() {
-        RepairStudio s = new RepairStudio();
+        CountedStudio s = new CountedStudio();
         same("3: empty", s.truncateInput(0), 0);
         same("3: too long", s.truncateInput(1), -1);
         s.appendInput(0, 0, 0, 0, 0);
@@ -85,7 +85,7 @@ public final class PromisesTest {
     }
 
     static void promise4() {
-        RepairStudio s = shop();
+        CountedStudio s = shop();
         s.plan(0, 0);
         s.tick(1);
         s.saveSnapshot(0);
@@ -164,7 +164,7 @@ public final class PromisesTest {
         refused(false, times("press 1;", 6) + "pres", 1, 48);
         refused(false, times("recipe 1 0 0 0 0 0 1;", 11), 4, 210);
         refused(false, times("object 1 0 0;", 17), 4, 208);
-        RepairStudio s = shop();
+        CountedStudio s = shop();
         s.plan(0, 0);
         s.saveSnapshot(1);
         int digest = s.digest();
@@ -179,7 +179,7 @@ public final class PromisesTest {
 
     static void promise5() {
         promise4Errors();
-        RepairStudio s = new RepairStudio();
+        CountedStudio s = new CountedStudio();
         same("5: none yet", s.errorCode(), 0);
         Check.input(s, "press 101;");
         s.load();
@@ -198,7 +198,7 @@ public final class PromisesTest {
     }
 
     static void promise6() {
-        RepairStudio s = new RepairStudio();
+        CountedStudio s = new CountedStudio();
         same("6: none yet", s.errorPosition(), -1);
         Check.input(s, "\n  object 1 1 1 \n");
         s.load();
@@ -214,7 +214,7 @@ public final class PromisesTest {
     }
 
     static void promise7() {
-        RepairStudio s = Check.loaded("benches 2;life 8;press 9;press 9;recipe 1 3 1 0 0 0 1;recipe 2 0 0 0 0 0 1;object 1 500 0;object 1 600 0;object 1 700 0;");
+        CountedStudio s = Check.loaded("benches 2;life 8;press 9;press 9;recipe 1 3 1 0 0 0 1;recipe 2 0 0 0 0 0 1;object 1 500 0;object 1 600 0;object 1 700 0;");
         same("7: below", s.count(-1), -1);
         same("7: above", s.count(13), -1);
         same("7: far below", s.count(MIN), -1);
@@ -237,7 +237,7 @@ public final class PromisesTest {
     }
 
     static void promise8() {
-        RepairStudio s = shop();
+        CountedStudio s = shop();
         same("8: size", s.press(1, 0), 50);
         same("8: free", s.press(0, 1), -1);
         same("8: other", s.press(0, 2), -1);
@@ -252,11 +252,11 @@ public final class PromisesTest {
         Check.noObject("8: below", () -> s.press(-1, 0));
         Check.noObject("8: above", () -> s.press(3, 0));
         Check.noObject("8: above, other what", () -> s.press(MAX, 9));
-        Check.noObject("8: none", () -> new RepairStudio().press(0, 0));
+        Check.noObject("8: none", () -> new CountedStudio().press(0, 0));
     }
 
     static void promise9() {
-        RepairStudio s = shop();
+        CountedStudio s = shop();
         int[] due = {1, 5, 1, 1, 0, 50, 7, -1};
         for (int what = 0; what < due.length; what++) same("9: recipe 1 " + what, s.recipe(1, what), due[what]);
         same("9: last", s.recipe(3, 0), 3);
@@ -268,7 +268,7 @@ public final class PromisesTest {
     }
 
     static void promise10() {
-        RepairStudio s = shop();
+        CountedStudio s = shop();
         int[] fresh = {20, 400, 2, 0, 0, 0, -1, -1, -1, 0, 30000, -1};
         for (int what = 0; what < fresh.length; what++) same("10: fresh " + what, s.object(3, what), fresh[what]);
         same("10: below", s.object(3, -1), -1);
@@ -293,7 +293,7 @@ public final class PromisesTest {
         Check.noObject("10: below", () -> s.object(-1, 0));
         Check.noObject("10: above", () -> s.object(4, 0));
         Check.noObject("10: far", () -> s.object(MAX, 0));
-        RepairStudio one = Check.loaded("press 1;press 9;recipe 1 3 1 0 0 0 1;object 5 10 0;object 9 10 0;");
+        CountedStudio one = Check.loaded("press 1;press 9;recipe 1 3 1 0 0 0 1;object 5 10 0;object 9 10 0;");
         one.plan(0, 0);
         one.plan(1, 0);
         one.tick(3);
@@ -305,7 +305,7 @@ public final class PromisesTest {
     }
 
     static void promise11() {
-        RepairStudio s = shop();
+        CountedStudio s = shop();
         s.plan(0, 2);
         s.plan(0, 1);
         same("11: first", s.queued(0, 0), 2);
@@ -321,7 +321,7 @@ public final class PromisesTest {
     }
 
     static void promise12() {
-        RepairStudio s = shop();
+        CountedStudio s = shop();
         same("12: none", s.loan(0, 0), -1);
         s.lend(0, 30, 600, 500);
         same("12: due", s.loan(0, 0), 30);
@@ -336,7 +336,7 @@ public final class PromisesTest {
     }
 
     static void promise13() {
-        RepairStudio s = shop();
+        CountedStudio s = shop();
         for (int n = 1; n <= 8; n++) same("13: plan", s.plan(1, n % 4), n);
         same("13: full", s.plan(1, 0), -2);
         same("13: full is not undone", s.count(12), 8);
@@ -354,7 +354,7 @@ public final class PromisesTest {
     }
 
     static void promise14() {
-        RepairStudio s = shop();
+        CountedStudio s = shop();
         same("14: empty", s.cancel(3), -4);
         s.plan(3, 2);
         s.plan(3, 1);
@@ -370,7 +370,7 @@ public final class PromisesTest {
     }
 
     static void promise15() {
-        RepairStudio s = shop();
+        CountedStudio s = shop();
         same("15: empty", s.clearQueue(3), -4);
         s.plan(3, 2);
         s.plan(3, 1);
@@ -385,7 +385,7 @@ public final class PromisesTest {
     }
 
     static void promise16() {
-        RepairStudio s = shop();
+        CountedStudio s = shop();
         s.plan(3, 2);
         s.plan(3, 1);
         s.plan(3, 0);
@@ -414,7 +414,7 @@ public final class PromisesTest {
     }
 
     static void promise17() {
-        RepairStudio s = shop();
+        CountedStudio s = shop();
         same("17: empty", s.approve(3), -4);
         s.plan(3, 0);
         same("17: level 0 and guard 2 need none", s.approve(3), -4);
@@ -435,7 +435,7 @@ public final class PromisesTest {
     }
 
     static void promise18() {
-        RepairStudio s = shop();
+        CountedStudio s = shop();
         same("18: urgency", s.lend(0, 20000, 1000, 500), 20000);
         same("18: waits already", s.lend(0, 1, 1, 1), -4);
         same("18: due 0", s.lend(1, 0, 0, 1), 0);
@@ -460,7 +460,7 @@ public final class PromisesTest {
     }
 
     static void promise19() {
-        RepairStudio s = shop();
+        CountedStudio s = shop();
         same("19: none", s.recall(0), -4);
         s.lend(0, 30, 0, 5);
         same("19: due", s.recall(0), 30);
@@ -474,7 +474,7 @@ public final class PromisesTest {
     }
 
     static void promise20() {
-        RepairStudio s = shop();
+        CountedStudio s = shop();
         Check.badValue("20: 0", () -> s.tick(0));
         Check.badValue("20: -1", () -> s.tick(-1));
         Check.badValue("20: 1001", () -> s.tick(1001));
@@ -491,7 +491,7 @@ public final class PromisesTest {
     }
 
     static void promise21() {
-        RepairStudio s = shop();
+        CountedStudio s = shop();
         same("21: empty queue", s.reason(0), 2);
         s.plan(0, 0);
         same("21: can begin", s.reason(0), 0);
@@ -504,7 +504,7 @@ public final class PromisesTest {
         s.tick(1);
         same("21: not on the shelf", s.reason(0), 1);
         same("21: no bench", s.reason(3), 6);
-        RepairStudio t = Check.loaded("life 3;recipe 9 0 0 3 0 0 1;object 1 1 1;object 1 1 0;");
+        CountedStudio t = Check.loaded("life 3;recipe 9 0 0 3 0 0 1;object 1 1 1;object 1 1 0;");
         t.plan(1, 0);
         t.lend(1, 0, 1000, 1);
         t.plan(0, 0);
@@ -515,13 +515,13 @@ public final class PromisesTest {
         same("21: ended, ahead of the bench", t.reason(0), 5);
         Check.noObject("21: object", () -> s.reason(4));
         Check.noObject("21: object", () -> s.reason(-1));
-        RepairStudio u = Check.loaded("recipe 1 0 1 0 0 0 1;object 1 1 0;");
+        CountedStudio u = Check.loaded("recipe 1 0 1 0 0 0 1;object 1 1 0;");
         u.plan(0, 0);
         same("21: PRESS 1 also without CURE", u.reason(0), 3);
     }
 
     static void promise22() {
-        RepairStudio s = shop();
+        CountedStudio s = shop();
         same("22: of 2", s.cause(0), -1);
         s.plan(0, 0);
         same("22: of 0", s.cause(0), -1);
@@ -534,7 +534,7 @@ public final class PromisesTest {
         s.approve(3);
         same("22: of 6", s.cause(3), -1);
         s.tick(73);
-        RepairStudio t = Check.loaded("life 3;recipe 40 0 0 3 0 0 1;recipe 1 1 1 0 0 0 1;object 1 1 1;object 1 100 0;object 1 1 0;");
+        CountedStudio t = Check.loaded("life 3;recipe 40 0 0 3 0 0 1;recipe 1 1 1 0 0 0 1;object 1 1 1;object 1 100 0;object 1 1 0;");
         t.plan(1, 0);
         t.lend(1, 0, 1000, 1);
         t.plan(0, 0);
@@ -547,7 +547,7 @@ public final class PromisesTest {
         t.clearQueue(2);
         t.tick(1);
         same("22: of 1, lent", t.cause(2), 4);
-        RepairStudio u = Check.loaded("benches 2;press 1;recipe 1 9 1 0 0 0 1;object 1 1 0;object 1 1 0;");
+        CountedStudio u = Check.loaded("benches 2;press 1;recipe 1 9 1 0 0 0 1;object 1 1 0;object 1 1 0;");
         u.plan(0, 0);
         u.plan(1, 0);
         u.tick(2);
@@ -558,7 +558,7 @@ public final class PromisesTest {
     }
 
     static void promise23() {
-        RepairStudio s = shop();
+        CountedStudio s = shop();
         same("23: all empty", s.objectsWith(2), 15);
         s.plan(0, 0);
         s.plan(2, 1);
@@ -571,7 +571,7 @@ public final class PromisesTest {
         same("23: not on the shelf", s.objectsWith(1), 1);
         same("23: no bench", s.objectsWith(6), 8);
         same("23: ended", s.objectsWith(5), 0);
-        RepairStudio t = Check.loaded("life 1;recipe 40 0 0 3 0 0 1;object 1 1 0;object 1 1 1;");
+        CountedStudio t = Check.loaded("life 1;recipe 40 0 0 3 0 0 1;object 1 1 0;object 1 1 1;");
         t.plan(0, 0);
         t.plan(1, 0);
         t.approve(1);
@@ -579,11 +579,11 @@ public final class PromisesTest {
         same("23: ended now", t.objectsWith(5), 2);
         Check.badValue("23: below", () -> s.objectsWith(-1));
         Check.badValue("23: above", () -> s.objectsWith(7));
-        same("23: none", new RepairStudio().objectsWith(2), 0);
+        same("23: none", new CountedStudio().objectsWith(2), 0);
     }
 
     static void promise24() {
-        RepairStudio s = shop();
+        CountedStudio s = shop();
         same("24: none", s.next(), -1);
         s.plan(3, 0);
         s.plan(1, 0);
@@ -600,7 +600,7 @@ public final class PromisesTest {
     }
 
     static void promise25() {
-        RepairStudio s = shop();
+        CountedStudio s = shop();
         same("25: 0 and 3", s.needsApproval(2, 0), false);
         same("25: 1 and 3", s.needsApproval(2, 1), true);
         same("25: 3 and 0", s.needsApproval(0, 2), false);
@@ -614,7 +614,7 @@ public final class PromisesTest {
     }
 
     static void promise26() {
-        RepairStudio s = shop();
+        CountedStudio s = shop();
         same("26: empty", s.approvalsAhead(2), 0);
         s.plan(2, 0);
         s.plan(2, 1);
@@ -626,7 +626,7 @@ public final class PromisesTest {
     }
 
     static void promise27() {
-        RepairStudio s = shop();
+        CountedStudio s = shop();
         same("27: the lowest of the least", s.pressFor(0), 0);
         same("27: exactly", s.pressFor(3), 0);
         same("27: the great one", s.pressFor(1), 1);
@@ -641,7 +641,7 @@ public final class PromisesTest {
     }
 
     static void promise28() {
-        RepairStudio s = shop();
+        CountedStudio s = shop();
         same("28: base", s.scoreAfter(0, 0), 500);
         same("28: to at most 1000", s.scoreAfter(1, 0), 1000);
         same("28: rate", s.scoreAfter(0, 1), 700);
@@ -657,7 +657,7 @@ public final class PromisesTest {
     }
 
     static void promise29() {
-        RepairStudio s = shop();
+        CountedStudio s = shop();
         same("29: empty", s.scoreAhead(0), 400);
         s.plan(0, 0);
         s.plan(0, 1);
@@ -671,7 +671,7 @@ public final class PromisesTest {
     }
 
     static void promise30() {
-        RepairStudio s = shop();
+        CountedStudio s = shop();
         // of 400: 100/2, 300/6, 90/4 and 0/5
         same("30: the lowest of the same", s.bestRecipe(0), 0);
         // of 900: 100/2, 50/6, 40/4
@@ -687,7 +687,7 @@ public final class PromisesTest {
     }
 
     static void promise31() {
-        RepairStudio s = shop();
+        CountedStudio s = shop();
         same("31: there already", s.stepsTo(0, 0, 400), 0);
         same("31: one", s.stepsTo(0, 0, 401), 1);
         same("31: one exactly", s.stepsTo(0, 0, 500), 1);
@@ -706,7 +706,7 @@ public final class PromisesTest {
     }
 
     static void promise32() {
-        RepairStudio s = shop();
+        CountedStudio s = shop();
         same("32: there already", s.quickestTo(0, 399), 0);
         same("32: 0 is a target", s.quickestTo(2, 0), 0);
         same("32: exactly there", s.quickestTo(0, 400), 0);
@@ -715,7 +715,7 @@ public final class PromisesTest {
         same("32: 700", s.quickestTo(0, 700), 6);
         same("32: 701", s.quickestTo(0, 701), 8);
         // greedy takes 60 and 60 (20 hours); 60 and 40 are enough in 16
-        RepairStudio t = Check.loaded("recipe 10 0 0 0 60 0 1;recipe 6 0 0 0 40 0 9;recipe 1 0 0 0 0 0 1;object 1 0 0;object 1 950 0;");
+        CountedStudio t = Check.loaded("recipe 10 0 0 0 60 0 1;recipe 6 0 0 0 40 0 9;recipe 1 0 0 0 0 0 1;object 1 0 0;object 1 950 0;");
         same("32: mixed", t.quickestTo(0, 100), 16);
         same("32: mixed", t.quickestTo(0, 120), 18);
         same("32: far", t.quickestTo(0, 1000), 150);
@@ -730,7 +730,7 @@ public final class PromisesTest {
     }
 
     static void promise33() {
-        RepairStudio s = shop();
+        CountedStudio s = shop();
         same("33: there already", s.cheapestTo(0, 400), 0L);
         same("33: 0 is a target", s.cheapestTo(2, 0), 0L);
         // from 0: the steps over the score 0 itself count, too
@@ -749,7 +749,7 @@ public final class PromisesTest {
     }
 
     static void promise34() {
-        RepairStudio s = shop();
+        CountedStudio s = shop();
         same("34: empty", s.hoursAhead(0), 0);
         s.plan(0, 1);
         s.plan(0, 0);
@@ -762,8 +762,8 @@ public final class PromisesTest {
     }
 
     /** Owes 2 steps of 1000000000 and one of 147483647: exactly 2147483647. */
-    private static RepairStudio owing(int more) {
-        RepairStudio s = Check.loaded("recipe 10 0 0 0 0 0 100000000;recipe 1 0 0 0 0 0 100000000;recipe 1 0 0 0 0 0 47483647;recipe 1 0 0 0 0 0 1;object 1 1 0;object 1 1 0;");
+    private static CountedStudio owing(int more) {
+        CountedStudio s = Check.loaded("recipe 10 0 0 0 0 0 100000000;recipe 1 0 0 0 0 0 100000000;recipe 1 0 0 0 0 0 47483647;recipe 1 0 0 0 0 0 1;object 1 1 0;object 1 1 0;");
         int[] row = {0, 0, 1, 2};
         for (int recipe : row) s.plan(0, recipe);
         for (int n = 0; n < more; n++) s.plan(0, 3);
@@ -771,7 +771,7 @@ public final class PromisesTest {
     }
 
     static void promise35() {
-        RepairStudio s = owing(0);
+        CountedStudio s = owing(0);
         same("35: nothing", s.bill(0), 0);
         s.tick(10);
         same("35: not done yet", s.bill(0), 0);
@@ -780,7 +780,7 @@ public final class PromisesTest {
         s.tick(30);
         same("35: as much as an int holds", s.bill(0), MAX);
         same("35: other", s.bill(1), 0);
-        RepairStudio t = owing(1);
+        CountedStudio t = owing(1);
         t.tick(41);
         Check.throwsExactly("35: one more", ArithmeticException.class, () -> t.bill(0));
         for (int n = 0; n < 2; n++) t.plan(0, 0);
@@ -791,7 +791,7 @@ public final class PromisesTest {
     }
 
     static void promise36() {
-        RepairStudio s = owing(0);
+        CountedStudio s = owing(0);
         same("36: nothing", s.allBills(), 0);
         s.tick(41);
         same("36: as much as an int holds", s.allBills(), MAX);
@@ -799,11 +799,11 @@ public final class PromisesTest {
         s.tick(3);
         same("36: each is told", s.bill(1), 1);
         Check.throwsExactly("36: together", ArithmeticException.class, () -> s.allBills());
-        same("36: no objects", new RepairStudio().allBills(), 0);
+        same("36: no objects", new CountedStudio().allBills(), 0);
     }
 
     static void promise37() {
-        RepairStudio s = owing(0);
+        CountedStudio s = owing(0);
         same("37: all of the queue", s.billAhead(0), MAX);
         same("37: none", s.billAhead(1), 0);
         s.tick(1);
@@ -811,7 +811,7 @@ public final class PromisesTest {
         s.tick(10);
         same("37: owed and ahead", s.billAhead(0), 1147483647 + 0);
         s.tick(1);
-        RepairStudio t = owing(1);
+        CountedStudio t = owing(1);
         Check.throwsExactly("37: one more", ArithmeticException.class, () -> t.billAhead(0));
         t.cancel(0);
         same("37: one less", t.billAhead(0), MAX);
@@ -819,12 +819,12 @@ public final class PromisesTest {
         Check.noObject("37: object", () -> t.billAhead(-1));
     }
 
-    private static void row(String what, RepairStudio s, int index, int... due) {
+    private static void row(String what, CountedStudio s, int index, int... due) {
         for (int k = 0; k < due.length; k++) same(what + " " + k, s.record(index, k), due[k]);
     }
 
     static void promise38() {
-        RepairStudio s = shop();
+        CountedStudio s = shop();
         Check.noObject("38: none", () -> s.record(0, 0));
         s.plan(0, 1);
         s.plan(3, 1);
@@ -842,13 +842,15 @@ public final class PromisesTest {
         Check.noObject("38: above", () -> s.record(5, 0));
         Check.noObject("38: below", () -> s.record(-1, 0));
         Check.noObject("38: far", () -> s.record(MAX, 9));
-        RepairStudio t = Check.loaded("recipe 1 0 0 0 1 0 1;object 1 0 0;");
+        CountedStudio t = Check.loaded("recipe 1 0 0 0 1 0 1;object 1 0 0;");
         for (int n = 1; n <= 103; n++) {
             t.plan(0, 0);
             t.tick(2);
+            t.looking(true);
             same("38: kept", t.count(8), Math.min(n, 100));
             same("38: latest", t.record(t.count(8) - 1, 5), n);
             same("38: oldest", t.record(0, 5), Math.max(1, n - 99));
+            t.looking(false);
         }
         same("38: time of the oldest", t.record(0, 3), 7);
         Check.noObject("38: a hundred", () -> t.record(100, 0));
@@ -856,14 +858,14 @@ public final class PromisesTest {
         t.undo();
         same("38: undone", t.record(99, 5), 102);
         same("38: the oldest is back", t.record(0, 5), 3);
-        RepairStudio low = Check.loaded("object 1 19 0;");
+        CountedStudio low = Check.loaded("object 1 19 0;");
         low.lend(0, 0, 0, 1);
         low.tick(2);
         row("38: not below 0", low, 0, 0, 2, -1, 1, 19, 0);
     }
 
     static void promise39() {
-        RepairStudio s = shop();
+        CountedStudio s = shop();
         same("39: none", s.recordsOf(0, 0), 0);
         s.plan(0, 1);
         s.plan(0, 0);
@@ -882,7 +884,7 @@ public final class PromisesTest {
     }
 
     static void promise40() {
-        RepairStudio s = shop();
+        CountedStudio s = shop();
         same("40: none", s.latestRecord(0), -1);
         s.plan(0, 0);
         s.plan(0, 0);
@@ -898,15 +900,15 @@ public final class PromisesTest {
     }
 
     /** Two objects for one press: 0 cures in it in the hours 1 to 4, 1 waits from the hour 2 and comes in in 4. */
-    private static RepairStudio waiting() {
-        RepairStudio s = Check.loaded("press 9;recipe 1 3 1 0 5 0 1;object 9 100 0;object 9 200 0;");
+    private static CountedStudio waiting() {
+        CountedStudio s = Check.loaded("press 9;recipe 1 3 1 0 5 0 1;object 9 100 0;object 9 200 0;");
         s.plan(0, 0);
         s.plan(1, 0);
         return s;
     }
 
     static void promise41() {
-        RepairStudio s = waiting();
+        CountedStudio s = waiting();
         same("41: nothing", s.lost(1), 0);
         s.tick(4);
         same("41: told when it ends", s.lost(1), 0);
@@ -919,7 +921,7 @@ public final class PromisesTest {
         s.tick(9);
         same("41: loans do not count", s.lost(1), 2);
         same("41: loan came", s.object(1, 1), 183);
-        RepairStudio oldest = waiting();
+        CountedStudio oldest = waiting();
         oldest.tick(8);
         for (int n = 0; n < 99; n++) {
             oldest.lend(0, 0, 0, 1);
@@ -935,7 +937,7 @@ public final class PromisesTest {
     }
 
     static void promise42() {
-        RepairStudio s = waiting();
+        CountedStudio s = waiting();
         same("42: nothing", s.recorded(1), 0);
         s.tick(5);
         same("42: five less two", s.recorded(1), 3);
@@ -949,7 +951,7 @@ public final class PromisesTest {
     }
 
     static void promise43() {
-        RepairStudio s = waiting();
+        CountedStudio s = waiting();
         same("43: in time", s.readyAt(0, 500), 5);
         same("43: just in time", s.readyAt(0, 5), 5);
         same("43: too early", s.readyAt(0, 4), -1);
@@ -966,7 +968,7 @@ public final class PromisesTest {
         Check.noObject("43: object", () -> s.readyAt(-1, 1));
         Check.badValue("43: hours", () -> s.readyAt(0, 0));
         Check.badValue("43: hours", () -> s.readyAt(0, 501));
-        RepairStudio late = waiting();
+        CountedStudio late = waiting();
         late.undo();
         late.undo();
         for (int n = 0; n < 19; n++) late.tick(1000);
@@ -981,7 +983,7 @@ public final class PromisesTest {
     }
 
     static void promise44() {
-        RepairStudio s = waiting();
+        CountedStudio s = waiting();
         same("44: before", s.scoreIn(1, 2), 200);
         same("44: step", s.scoreIn(1, 3), 205);
         same("44: waits", s.scoreIn(1, 4), 204);
@@ -993,7 +995,7 @@ public final class PromisesTest {
         Check.noObject("44: object", () -> s.scoreIn(-1, 1));
         Check.badValue("44: hours", () -> s.scoreIn(0, 0));
         Check.badValue("44: hours", () -> s.scoreIn(0, 501));
-        RepairStudio late = Check.loaded("recipe 3 0 0 0 5 0 1;object 1 100 0;");
+        CountedStudio late = Check.loaded("recipe 3 0 0 0 5 0 1;object 1 100 0;");
         for (int n = 0; n < 19; n++) late.tick(1000);
         late.tick(996);
         late.plan(0, 0);
@@ -1006,7 +1008,7 @@ public final class PromisesTest {
         same("44: one step fits", late.scoreIn(0, 500), 105);
         late.tick(3);
         same("44: no hour is left", late.scoreIn(0, 500), 105);
-        RepairStudio later = Check.loaded("recipe 4 0 0 0 5 0 1;object 1 100 0;");
+        CountedStudio later = Check.loaded("recipe 4 0 0 0 5 0 1;object 1 100 0;");
         for (int n = 0; n < 19; n++) later.tick(1000);
         later.tick(996);
         later.plan(0, 0);
@@ -1014,7 +1016,7 @@ public final class PromisesTest {
     }
 
     static void promise45() {
-        RepairStudio s = Check.loaded("recipe 1 0 0 0 100 0 1;object 1 100 0;object 1 100 0;object 1 1 0;");
+        CountedStudio s = Check.loaded("recipe 1 0 0 0 100 0 1;object 1 100 0;object 1 100 0;object 1 1 0;");
         s.lend(0, 2, 0, 3);
         s.lend(1, 0, 200, 500);
         s.lend(2, 3, 0, 1);
@@ -1035,7 +1037,7 @@ public final class PromisesTest {
     }
 
     static void promise46() {
-        RepairStudio s = Check.loaded("benches 3;recipe 2 0 0 0 0 0 1;object 1 1 0;object 1 1 0;object 1 1 0;object 1 1 0;");
+        CountedStudio s = Check.loaded("benches 3;recipe 2 0 0 0 0 0 1;object 1 1 0;object 1 1 0;object 1 1 0;object 1 1 0;");
         same("46: nothing to do", s.bestBenches(200), 1);
         s.plan(0, 0);
         s.plan(1, 0);
@@ -1062,7 +1064,7 @@ public final class PromisesTest {
     }
 
     static void promise47() {
-        RepairStudio s = waiting();
+        CountedStudio s = waiting();
         same("47: all ready", s.quietAt(8), 8);
         same("47: too early", s.quietAt(7), -1);
         s.tick(8);
@@ -1075,14 +1077,14 @@ public final class PromisesTest {
         s.plan(1, 0);
         same("47: what can begin is not", s.quietAt(3), -1);
         same("47: then it is", s.quietAt(5), 14);
-        RepairStudio t = Check.loaded("recipe 1 1 0 3 0 0 1;object 1 1 1;");
+        CountedStudio t = Check.loaded("recipe 1 1 0 3 0 0 1;object 1 1 1;");
         t.plan(0, 0);
         same("47: not approved", t.quietAt(1), 0);
         t.approve(0);
         same("47: approved", t.quietAt(3), 3);
         Check.badValue("47: hours", () -> t.quietAt(0));
         Check.badValue("47: hours", () -> t.quietAt(501));
-        same("47: nothing there", new RepairStudio().quietAt(500), 0);
+        same("47: nothing there", new CountedStudio().quietAt(500), 0);
         t.undo();
         for (int n = 0; n < 19; n++) t.tick(1000);
         t.tick(997);
@@ -1095,7 +1097,7 @@ public final class PromisesTest {
     }
 
     static void promise48() {
-        RepairStudio s = shop();
+        CountedStudio s = shop();
         same("48: none", s.lateness(0), -1);
         s.lend(0, 3, 900, 1);
         same("48: early", s.lateness(0), 0);
@@ -1110,7 +1112,7 @@ public final class PromisesTest {
     }
 
     static void promise49() {
-        RepairStudio s = shop();
+        CountedStudio s = shop();
         same("49: none", s.mostUrgent(), -1);
         s.lend(3, 20000, 0, 1);
         same("49: only one", s.mostUrgent(), 3);
@@ -1121,7 +1123,7 @@ public final class PromisesTest {
     }
 
     static void promise50() {
-        RepairStudio s = shop();
+        CountedStudio s = shop();
         same("50: none", s.waitingLoan(0), -1);
         s.lend(3, 7, 0, 1);
         s.lend(0, 9, 0, 1);
@@ -1136,7 +1138,7 @@ public final class PromisesTest {
     }
 
     static void promise51() {
-        RepairStudio s = shop();
+        CountedStudio s = shop();
         s.plan(0, 0);
         s.plan(1, 0);
         s.plan(1, 1);
@@ -1156,7 +1158,7 @@ public final class PromisesTest {
     }
 
     static void promise52() {
-        RepairStudio s = waiting();
+        CountedStudio s = waiting();
         same("52: none", s.pressUse(0), 0);
         s.tick(2);
         same("52: one", s.pressUse(0), 1);
@@ -1172,7 +1174,7 @@ public final class PromisesTest {
     }
 
     static void promise53() {
-        RepairStudio s = shop();
+        CountedStudio s = shop();
         same("53: none", s.inQueues(0), 0);
         s.plan(0, 0);
         s.plan(0, 0);
@@ -1187,7 +1189,7 @@ public final class PromisesTest {
     }
 
     static void promise54() {
-        RepairStudio s = waiting();
+        CountedStudio s = waiting();
         same("54: free", s.dryIn(0), 0);
         s.tick(2);
         same("54: full", s.dryIn(0), 3);
@@ -1202,7 +1204,7 @@ public final class PromisesTest {
     }
 
     static void promise55() {
-        RepairStudio s = shop();
+        CountedStudio s = shop();
         same("55: the same score", s.rank(0), 1);
         same("55: the same score", s.rank(3), 1);
         same("55: the best", s.rank(1), 3);
@@ -1212,7 +1214,7 @@ public final class PromisesTest {
     }
 
     static void promise56() {
-        RepairStudio s = shop();
+        CountedStudio s = shop();
         same("56: none", s.below(0), 0);
         same("56: one", s.below(1), 4);
         same("56: not itself", s.below(400), 4);
@@ -1223,7 +1225,7 @@ public final class PromisesTest {
     }
 
     static void promise57() {
-        RepairStudio s = waiting();
+        CountedStudio s = waiting();
         same("57: all", s.objectsIn(0), 3);
         s.tick(3);
         same("57: cures", s.objectsIn(3), 1);
@@ -1242,11 +1244,11 @@ public final class PromisesTest {
     static void promise58() {
         same("58: mean", shop().meanScore(), 425.0);
         same("58: not whole", Check.loaded("object 1 1 1;object 1 2 1;object 1 2 1;").meanScore(), 5.0 / 3.0);
-        Check.throwsExactly("58: none", ArithmeticException.class, () -> new RepairStudio().meanScore());
+        Check.throwsExactly("58: none", ArithmeticException.class, () -> new CountedStudio().meanScore());
     }
 
     static void promise59() {
-        RepairStudio s = shop();
+        CountedStudio s = shop();
         same("59: empty", s.write(2), 0);
         s.plan(2, 1);
         same("59: two bytes", s.write(2), 2);
@@ -1265,7 +1267,7 @@ public final class PromisesTest {
     }
 
     static void promise60() {
-        RepairStudio s = shop();
+        CountedStudio s = shop();
         same("60: none yet", s.outputByte(0), -1);
         s.plan(2, 1);
         s.write(2);
@@ -1286,7 +1288,7 @@ public final class PromisesTest {
     }
 
     static void promise61() {
-        RepairStudio s = shop();
+        CountedStudio s = shop();
         Check.input(s, "plan 3 2;approve 3;plan 3 0;cancel 3;lend 3 5 0 9;recall 3;lend 3 6 1 2;tick 2;");
         same("61: all", s.play(), 8);
         same("61: at a bench", s.object(3, 3), 1);
@@ -1322,7 +1324,7 @@ public final class PromisesTest {
             refused(true, "z" + word.substring(1) + ";", 1, 0);
             refused(true, word.replaceFirst(" ", "z ") + ";", 1, 0);
         }
-        RepairStudio ends = Check.loaded(times("recipe 1 0 0 0 0 0 1;", 10) + times("object 1 0 0;", 16));
+        CountedStudio ends = Check.loaded(times("recipe 1 0 0 0 0 0 1;", 10) + times("object 1 0 0;", 16));
         Check.input(ends, "lend 15 20000 1000 500;plan 15 9;tick 1000;lend 0 0 0 1;plan 0 0;tick 1;");
         same("61: the ends of the ranges", ends.play(), 6);
         same("61: great", ends.loan(15, 2), 500);
@@ -1343,7 +1345,7 @@ public final class PromisesTest {
         refused(true, "lend 0 0 0;", 1, 10);
         refused(true, "tick 1;object 1 1 1;", 1, 7);
         refused(true, "exchange 0 0 1;", 1, 0);
-        RepairStudio t = shop();
+        CountedStudio t = shop();
         Check.input(t, "tick 1;plan 0 0;tick");
         same("61: refused whole", t.play(), -3);
         same("61: nothing was done", t.count(4), 0);
@@ -1351,7 +1353,7 @@ public final class PromisesTest {
     }
 
     static void promise62() {
-        RepairStudio s = shop();
+        CountedStudio s = shop();
         same("62: none", s.undo(), -1);
         s.plan(3, 2);
         s.approve(3);
@@ -1398,20 +1400,20 @@ public final class PromisesTest {
     }
 
     static void promise63() {
-        same("63: empty", new RepairStudio().digest(), 31);
-        RepairStudio s = Check.loaded("recipe 5 0 0 0 0 0 1;object 1 7 0;");
+        same("63: empty", new CountedStudio().digest(), 31);
+        CountedStudio s = Check.loaded("recipe 5 0 0 0 0 0 1;object 1 7 0;");
         same("63: one", s.digest(), ((31 * 31 + 7) * 31 + 0) * 31 + 0);
         s.plan(0, 0);
         s.tick(2);
         same("63: at a bench", s.digest(), (((31 + 2) * 31 + 7) * 31 + 1) * 31 + 4);
-        RepairStudio t = shop();
+        CountedStudio t = shop();
         int due = 31;
         for (int score : new int[] {400, 900, 0, 400}) due = ((due * 31 + score) * 31) * 31;
         same("63: four", t.digest(), due);
     }
 
     static void promise64() {
-        RepairStudio s = shop();
+        CountedStudio s = shop();
         same("64: below", s.saveSnapshot(-1), false);
         same("64: above", s.saveSnapshot(2), false);
         same("64: far", s.saveSnapshot(MAX), false);
@@ -1431,7 +1433,7 @@ public final class PromisesTest {
     }
 
     static void promise65() {
-        RepairStudio s = waiting();
+        CountedStudio s = waiting();
         same("65: none", s.restoreSnapshot(0), false);
         same("65: below", s.restoreSnapshot(-1), false);
         same("65: above", s.restoreSnapshot(2), false);
@@ -1470,7 +1472,7 @@ public final class PromisesTest {
     /** What an hour does, in its order. */
     private static void hours() {
         // those that began to wait earlier come first, whatever their numbers
-        RepairStudio s = Check.loaded("benches 3;press 9;recipe 3 9 1 0 0 0 1;recipe 2 9 1 0 0 0 1;recipe 1 5 1 0 0 0 1;object 9 500 0;object 9 500 0;object 9 500 0;");
+        CountedStudio s = Check.loaded("benches 3;press 9;recipe 3 9 1 0 0 0 1;recipe 2 9 1 0 0 0 1;recipe 1 5 1 0 0 0 1;object 9 500 0;object 9 500 0;object 9 500 0;");
         s.plan(2, 2);
         s.plan(0, 0);
         s.plan(1, 1);
@@ -1479,7 +1481,7 @@ public final class PromisesTest {
         s.tick(1);
         same("hours: 1 waited longer", s.press(0, 1), 1);
         // the press with the least size, of those that are free
-        RepairStudio t = Check.loaded("benches 4;press 30;press 10;press 20;recipe 1 9 1 0 0 0 1;object 10 1 0;object 5 1 0;object 1 1 0;object 11 1 0;");
+        CountedStudio t = Check.loaded("benches 4;press 30;press 10;press 20;recipe 1 9 1 0 0 0 1;object 10 1 0;object 5 1 0;object 1 1 0;object 11 1 0;");
         for (int k = 0; k < 4; k++) t.plan(k, 0);
         t.tick(2);
         same("hours: least", t.press(1, 1), 0);
@@ -1489,13 +1491,13 @@ public final class PromisesTest {
         t.tick(3);
         same("hours: not below 0", t.object(3, 1), 0);
         // one that fits comes ahead of one that waited longer and does not
-        RepairStudio u = Check.loaded("benches 2;press 20;press 5;recipe 1 9 1 0 0 0 1;object 20 100 0;object 20 100 0;object 5 100 0;");
+        CountedStudio u = Check.loaded("benches 2;press 20;press 5;recipe 1 9 1 0 0 0 1;object 20 100 0;object 20 100 0;object 5 100 0;");
         for (int k = 0; k < 3; k++) u.plan(k, 0);
         u.tick(3);
         same("hours: 2 is in the little one", u.press(1, 1), 2);
         same("hours: 1 waits on", u.objectsIn(2), 2);
         // a loan waits for the score and for the queue, and a bench that comes free is taken in the same hour
-        RepairStudio v = Check.loaded("recipe 1 0 0 0 60 0 1;object 1 400 0;object 1 400 0;");
+        CountedStudio v = Check.loaded("recipe 1 0 0 0 60 0 1;object 1 400 0;object 1 400 0;");
         v.lend(0, 0, 500, 3);
         v.plan(0, 0);
         v.plan(0, 0);
@@ -1517,7 +1519,7 @@ public final class PromisesTest {
         v.tick(9);
         same("hours: not good enough", v.object(0, 3), 0);
         // an approval is gone with the step that it was for
-        RepairStudio w = Check.loaded("life 5;benches 2;recipe 1 0 0 3 0 0 1;object 1 1 1;");
+        CountedStudio w = Check.loaded("life 5;benches 2;recipe 1 0 0 3 0 0 1;object 1 1 1;");
         w.plan(0, 0);
         w.plan(0, 0);
         w.approve(0);
@@ -1526,7 +1528,7 @@ public final class PromisesTest {
         same("hours: one was done", w.count(9), 1);
         // an approval that ends at 5 is good in the hour 4 and not in the hour 5
         for (int due = 4; due <= 5; due++) {
-            RepairStudio x = Check.loaded("life 5;recipe " + due + " 0 0 0 0 0 1;recipe 1 0 0 3 0 0 1;object 1 1 0;object 1 1 1;");
+            CountedStudio x = Check.loaded("life 5;recipe " + due + " 0 0 0 0 0 1;recipe 1 0 0 3 0 0 1;object 1 1 0;object 1 1 1;");
             x.plan(0, 0);
             x.plan(1, 1);
             x.approve(1);

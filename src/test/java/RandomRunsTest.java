@@ -7,30 +7,37 @@ import java.util.Map;
 import java.util.Random;
 
 /**
- * Runs of calls, drawn from fixed seeds: RepairStudio has to answer each as Model does. Now and then
- * a look at all that can be seen goes in between; these looks do not count as calls.
+ * Runs of calls, drawn from fixed seeds: RepairStudio has to answer each as Model does, up to the 512th. Now and
+ * then a look at all that can be seen goes in between, for which CountedStudio brings new objects to the same state.
  */
 public final class RandomRunsTest {
-    private static final int CALLS = 512;
+    /** Behind so many calls there is no look, as a new object could not be brought there and be asked much more. */
+    private static final int LAST_LOOK = 450;
     private static final String[] BUSY_CHANGES = {"plan", "plan", "plan", "plan", "approve", "lend", "tick", "tick", "tick",
         "tick", "tick", "exchange"};
     private static final String[] CHANGES = {"plan", "plan", "plan", "plan", "cancel", "clearQueue", "exchange",
         "approve", "approve", "lend", "lend", "recall", "tick", "tick", "tick", "undo", "saveSnapshot", "restoreSnapshot"};
-    private static final Map<String, Method> OURS = byName(RepairStudio.class);
+    private static final Map<String, Method> OURS = byName(CountedStudio.class);
     private static final Map<String, Method> THEIRS = byName(Model.class);
 
     private final Random random;
-    private final RepairStudio studio = new RepairStudio();
+    private final CountedStudio studio = new CountedStudio();
     private final Model model = new Model();
     private final List<String> calls = new ArrayList<>();
+    private final int most;
     private boolean wrong;
-    private int looks;
     /** 0 all kinds of calls, 1 mostly work and ticks, 2 the same close to the time 20000. */
     private final int profile;
 
     private RandomRunsTest(long seed) {
         random = new Random(seed);
         profile = random.nextInt(3);
+        most = random.nextInt(3) == 0 ? CountedStudio.MOST_CALLS : LAST_LOOK;
+    }
+
+    /** No more calls can be asked, or an answer was wrong. */
+    private boolean ended() {
+        return wrong || studio.keptCalls() >= most;
     }
 
     private static Map<String, Method> byName(Class<?> type) {
@@ -73,6 +80,7 @@ public final class RandomRunsTest {
     }
 
     private Object ask(Map<String, Integer> answers, String name, Object... args) throws Exception {
+        if (studio.keptCalls() >= CountedStudio.MOST_CALLS) return RepairStudio.NONE;
         Object ours = answer(OURS, studio, name, args);
         Object due = answer(THEIRS, model, name, args);
         calls.add(name + java.util.Arrays.toString(args) + " -> " + ours + (ours.equals(due) ? "" : " DUE " + due));
@@ -88,7 +96,7 @@ public final class RandomRunsTest {
         if (random.nextInt(8) > 0) text(answers, goodStudio(), "load");
         for (int n = profile == 2 ? 19 : 0; n > 0; n--) ask(answers, "tick", 1000);
         if (profile == 2) ask(answers, "tick", within(700, 1000));
-        while (calls.size() - looks < CALLS && !wrong) {
+        while (!ended()) {
             int draw = random.nextInt(1000);
             if (draw < (profile == 0 ? 450 : 700)) {
                 String[] changes = profile == 0 || random.nextInt(10) == 0 ? CHANGES : BUSY_CHANGES;
@@ -108,11 +116,14 @@ public final class RandomRunsTest {
                 look(answers);
             }
         }
-        if (!wrong) look(answers);
+        look(answers);
     }
 
     private void look(Map<String, Integer> answers) throws Exception {
-        int before = calls.size();
+        if (wrong || studio.keptCalls() > LAST_LOOK) return;
+        ask(answers, "write", thing("write"));
+        studio.looking(true);
+        for (int at = 0; at <= 24; at++) ask(answers, "outputByte", at);
         for (int what = 0; what <= 12; what++) ask(answers, "count", what);
         for (int k = 0; k < model.count(3); k++) {
             for (int what = 0; what <= 10; what++) ask(answers, "object", k, what);
@@ -123,8 +134,6 @@ public final class RandomRunsTest {
                 "bill", "billAhead", "latestRecord", "lost", "recorded", "lateness", "rank"}) ask(answers, name, k);
             ask(answers, "readyAt", k, 300);
             ask(answers, "scoreIn", k, 150);
-            ask(answers, "write", k);
-            for (int at = 0; at <= 24; at++) ask(answers, "outputByte", at);
         }
         for (int index = 0; index < model.count(8); index++) {
             for (int what = 0; what <= 5; what++) ask(answers, "record", index, what);
@@ -148,7 +157,7 @@ public final class RandomRunsTest {
         for (int k = 0; k <= 16; k++) ask(answers, "waitingLoan", k);
         ask(answers, "allBills");
         ask(answers, "digest");
-        looks += calls.size() - before;
+        studio.looking(false);
     }
 
     private void text(Map<String, Integer> answers, String text, String reader) throws Exception {

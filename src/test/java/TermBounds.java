@@ -12,6 +12,8 @@ final class TermBounds {
     }
 
     static void all() {
+        Sentences.open("What it is");
+        whatItIs();
         Sentences.open("Terms");
         numbers();
         benches();
@@ -21,31 +23,54 @@ final class TermBounds {
         loans();
     }
 
+    private static void whatItIs() {
+        says("A conservation studio of a library: objects with condition scores, recipes of treatment steps with work at benches, curing and"
+                + " presses by sizes, approvals by curators that do not last, loans that wait until an object is ready, records from which every"
+                + " score follows, bills without overflow, reasons why a step cannot begin, forecasts; scripts, undo and snapshots.");
+        CountedStudio s = Bounds.busy();
+        for (int object = 0; object < 5; object++) {
+            // the objects begin with 500, 400, 300, 200 and 100; the one that waits for a press has lost 1 without a record yet
+            int first = 500 - 100 * object;
+            int lostNow = s.object(object, 3) == 2 ? 1 : 0;
+            same("the score of object " + object + " follows from the records", s.object(object, 1), first + s.recorded(object) - lostNow);
+        }
+        same("an object in each state", s.objectsIn(0) + s.objectsIn(1) + s.objectsIn(2) + s.objectsIn(3) + s.objectsIn(4), 31);
+
+        says("An object is used for at most 512 calls after it has been made; what later calls answer is free.");
+        CountedStudio used = new CountedStudio();
+        for (int n = 0; n < 510; n++) used.tick(1);
+        same("the 511th call", used.undo(), 9);
+        same("the 512th call", used.count(4), 509);
+        CountedStudio asked = Bounds.full();
+        for (int n = asked.keptCalls(); n < 511; n++) asked.tick(1);
+        same("a last hour", asked.tick(1), 512 - Bounds.full().keptCalls());
+    }
+
     private static void numbers() {
         says("THINGS. All numbers are whole; divisions are rounded down.");
         // 33 * 5 / 100 is 1.65, and 99 * 1 / 100 is 0.99
-        RepairStudio s = Bounds.loaded("recipe 1 0 0 0 0 33 1;recipe 1 0 0 0 0 99 1;recipe 1 0 0 0 0 100 1;object 1 995 0;object 1 999 0;");
+        CountedStudio s = Bounds.loaded("recipe 1 0 0 0 0 33 1;recipe 1 0 0 0 0 99 1;recipe 1 0 0 0 0 100 1;object 1 995 0;object 1 999 0;");
         same("1.65", s.scoreAfter(0, 0), 996);
         same("0.99", s.scoreAfter(1, 1), 999);
         same("1", s.scoreAfter(1, 2), 1000);
 
         says("The time is counted in hours, 0 at first, at most 20000.");
-        same("at first", new RepairStudio().count(4), 0);
-        same("an hour", Bounds.at(1, new RepairStudio()).count(4), 1);
-        same("the last one", Bounds.at(20000, new RepairStudio()).count(4), 20000);
-        same("up to it", Bounds.at(19999, new RepairStudio()).tick(1), 20000);
-        Bounds.refused("one more", () -> Bounds.at(20000, new RepairStudio()), Bounds.FULL, x -> x.tick(1));
-        Bounds.refused("one too many", () -> Bounds.at(19999, new RepairStudio()), Bounds.FULL, x -> x.tick(2));
-        Bounds.refused("a thousand", () -> Bounds.at(19001, new RepairStudio()), Bounds.FULL, x -> x.tick(1000));
-        same("a thousand fit", Bounds.at(19000, new RepairStudio()).tick(1000), 20000);
+        same("at first", new CountedStudio().count(4), 0);
+        same("an hour", Bounds.at(1, new CountedStudio()).count(4), 1);
+        same("the last one", Bounds.at(20000, new CountedStudio()).count(4), 20000);
+        same("up to it", Bounds.at(19999, new CountedStudio()).tick(1), 20000);
+        Bounds.refused("one more", () -> Bounds.at(20000, new CountedStudio()), Bounds.FULL, x -> x.tick(1));
+        Bounds.refused("one too many", () -> Bounds.at(19999, new CountedStudio()), Bounds.FULL, x -> x.tick(2));
+        Bounds.refused("a thousand", () -> Bounds.at(19001, new CountedStudio()), Bounds.FULL, x -> x.tick(1000));
+        same("a thousand fit", Bounds.at(19000, new CountedStudio()).tick(1000), 20000);
     }
 
     private static void benches() {
         says("There are 1 to 4 benches (1 at first).");
-        same("at first", new RepairStudio().count(0), 1);
+        same("at first", new CountedStudio().count(0), 1);
         same("not told", Bounds.loaded("object 1 1 1;").count(0), 1);
         for (int benches = 1; benches <= 4; benches++) {
-            RepairStudio s = Bounds.textTaken("benches " + benches + ";recipe 9 0 0 0 0 0 1;" + "object 1 1 0;".repeat(5), 5);
+            CountedStudio s = Bounds.textTaken("benches " + benches + ";recipe 9 0 0 0 0 0 1;" + "object 1 1 0;".repeat(5), 5);
             same("benches", s.count(0), benches);
             for (int object = 0; object < 5; object++) s.plan(object, 0);
             same("all are free", s.count(6), benches);
@@ -59,7 +84,7 @@ final class TermBounds {
 
     private static void presses() {
         says("PRESSES, at most 6, are numbered from 0; each has a SIZE (1 to 100).");
-        RepairStudio s = Bounds.textTaken("press 1;press 2;press 3;press 99;press 4;press 100;", 0);
+        CountedStudio s = Bounds.textTaken("press 1;press 2;press 3;press 99;press 4;press 100;", 0);
         same("the first", s.press(0, 0), 1);
         same("the last", s.press(5, 0), 100);
         same("six", s.count(1), 6);
@@ -73,7 +98,7 @@ final class TermBounds {
                 + " otherwise 0), LEVEL (0 to 3), BASE (0 to 500), RATE (0 to 100) and WAGE (1 to 100000000, for each hour of work).");
         int[] least = {1, 0, 0, 0, 0, 0, 1};
         int[] greatest = {40, 200, 1, 3, 500, 100, 100000000};
-        RepairStudio s = Bounds.textTaken(row("recipe", least) + row("recipe", greatest) + row("recipe", least).repeat(7) + row("recipe", greatest), 0);
+        CountedStudio s = Bounds.textTaken(row("recipe", least) + row("recipe", greatest) + row("recipe", least).repeat(7) + row("recipe", greatest), 0);
         same("ten", s.count(2), 10);
         for (int what = 0; what < 7; what++) {
             same("least " + what, s.recipe(0, what), least[what]);
@@ -103,7 +128,7 @@ final class TermBounds {
                 + " recipes, an approval or none, and a loan that waits or none.");
         int[] least = {1, 0, 0};
         int[] greatest = {100, 1000, 3};
-        RepairStudio s = Bounds.textTaken("recipe 1 0 0 1 0 0 1;" + row("object", least) + row("object", greatest).repeat(15), 16);
+        CountedStudio s = Bounds.textTaken("recipe 1 0 0 1 0 0 1;" + row("object", least) + row("object", greatest).repeat(15), 16);
         for (int what = 0; what < 3; what++) {
             same("least " + what, s.object(0, what), least[what]);
             same("greatest " + what, s.object(15, what), greatest[what]);
@@ -123,7 +148,7 @@ final class TermBounds {
         same("a second one", s.lend(15, 0, 0, 1), -4);
 
         says("A step of an object by a recipe needs an approval if LEVEL plus GUARD is 4 or more.");
-        RepairStudio t = Bounds.loaded("recipe 1 0 0 0 0 0 1;recipe 1 0 0 1 0 0 1;recipe 1 0 0 2 0 0 1;recipe 1 0 0 3 0 0 1;"
+        CountedStudio t = Bounds.loaded("recipe 1 0 0 0 0 0 1;recipe 1 0 0 1 0 0 1;recipe 1 0 0 2 0 0 1;recipe 1 0 0 3 0 0 1;"
                 + "object 1 1 0;object 1 1 1;object 1 1 2;object 1 1 3;");
         for (int guard = 0; guard <= 3; guard++) {
             for (int level = 0; level <= 3; level++) {
@@ -137,7 +162,7 @@ final class TermBounds {
 
     private static void loans() {
         says("A loan has a DUE (0 to 20000), a MINIMUM (0 to 1000) and a LENGTH (1 to 500 hours).");
-        RepairStudio s = Bounds.loaded("object 1 1 1;object 1 1 1;");
+        CountedStudio s = Bounds.loaded("object 1 1 1;object 1 1 1;");
         same("least", s.lend(0, 0, 0, 1), 0);
         same("greatest", s.lend(1, 20000, 1000, 500), 20000);
         int[] least = {0, 0, 1};
@@ -151,10 +176,10 @@ final class TermBounds {
         Bounds.range(1, 500, (x, length) -> x.lend(0, 0, 0, length));
 
         says("LIFE (1 to 500; 72 at first) is how many hours an approval lasts.");
-        same("at first", new RepairStudio().count(5), 72);
+        same("at first", new CountedStudio().count(5), 72);
         same("not told", Bounds.loaded("object 1 1 1;").count(5), 72);
         for (int life : new int[] {1, 2, 500}) {
-            RepairStudio t = Bounds.textTaken("life " + life + ";recipe 1 0 0 3 0 0 1;recipe 40 0 0 0 0 0 1;object 1 1 1;object 1 1 0;", 2);
+            CountedStudio t = Bounds.textTaken("life " + life + ";recipe 1 0 0 3 0 0 1;recipe 40 0 0 0 0 0 1;object 1 1 1;object 1 1 0;", 2);
             same("life", t.count(5), life);
             t.plan(0, 0);
             same("end", t.approve(0), life);
@@ -168,11 +193,11 @@ final class TermBounds {
     }
 
     /** Object 1 takes the one bench, ahead of all others, for as many hours. */
-    private static void keepBenchBusy(RepairStudio s, int hours) {
+    private static void keepBenchBusy(CountedStudio s, int hours) {
         if (s.loan(1, 0) == -1) s.lend(1, 0, 1000, 1);
-        for (int hour = 0; hour < hours; hour++) {
-            if (s.object(1, 5) == 0) s.plan(1, 1);
-            s.tick(1);
+        for (int left = hours; left > 0; left -= 200) {
+            while (s.object(1, 5) < 8) s.plan(1, 1);
+            s.tick(Math.min(200, left));
         }
     }
 }

@@ -35,8 +35,8 @@ final class TextBounds {
     }
 
     /** A buffer with so many blanks in it. */
-    static RepairStudio blanks(int length) {
-        RepairStudio s = new RepairStudio();
+    static CountedStudio blanks(int length) {
+        CountedStudio s = new CountedStudio();
         for (int n = 0; n < (length + 19) / 20; n++) s.appendInput(BLANKS, BLANKS, BLANKS, BLANKS, BLANKS);
         s.truncateInput(length);
         return s;
@@ -58,7 +58,7 @@ final class TextBounds {
         says("load() and play() read it and empty it, also on an error.");
         String[] texts = {"life 5;", "life;", "tick 1;", "tick;"};
         for (int k = 0; k < 4; k++) {
-            RepairStudio s = new RepairStudio();
+            CountedStudio s = new CountedStudio();
             Check.input(s, texts[k]);
             same(texts[k], k < 2 ? s.load() : s.play(), k % 2 == 0 ? k / 2 : -3);
             same("empty behind " + texts[k], Look.bufferLength(s), 0);
@@ -150,10 +150,10 @@ final class TextBounds {
     private static void statements() {
         says("The text of load() is a sequence of statements, perhaps none, in any order:");
         for (String none : new String[] {"", " ", "\n", " \n ".repeat(300)}) {
-            RepairStudio s = Bounds.textTaken(none, 0);
-            same("as a new one", Look.difference(Look.all(s), Look.all(new RepairStudio())), "the same");
+            CountedStudio s = Bounds.textTaken(none, 0);
+            same("as a new one", Look.difference(Look.all(s), Look.all(new CountedStudio())), "the same");
         }
-        RepairStudio s = Bounds.textTaken("object 1 10 0;recipe 1 0 0 0 0 0 1;object 2 20 1;life 3;press 4;recipe 5 0 0 0 0 0 1;press 6;benches 2;object 3 30 2;", 3);
+        CountedStudio s = Bounds.textTaken("object 1 10 0;recipe 1 0 0 0 0 0 1;object 2 20 1;life 3;press 4;recipe 5 0 0 0 0 0 1;press 6;benches 2;object 3 30 2;", 3);
         for (int object = 0; object < 3; object++) same("object " + object, s.object(object, 1), 10 * object + 10);
         same("recipe 1", s.recipe(1, 0), 5);
         same("press 1", s.press(1, 0), 6);
@@ -168,7 +168,7 @@ final class TextBounds {
             otherWords(statement, false);
         }
         for (String command : COMMANDS) Bounds.textRefused(command, 1, 0);
-        RepairStudio t = Bounds.textTaken("recipe 31 32 1 3 34 35 36;object 41 42 3;", 1);
+        CountedStudio t = Bounds.textTaken("recipe 31 32 1 3 34 35 36;object 41 42 3;", 1);
         int[] recipe = {31, 32, 1, 3, 34, 35, 36};
         for (int what = 0; what < 7; what++) same("recipe " + what, t.recipe(0, what), recipe[what]);
         int[] object = {41, 42, 3};
@@ -217,7 +217,7 @@ final class TextBounds {
         }
     }
 
-    private static int played(RepairStudio s, String script) {
+    private static int played(CountedStudio s, String script) {
         Check.input(s, script);
         int answer = s.play();
         same("no error in " + script, s.errorCode(), 0);
@@ -227,7 +227,7 @@ final class TextBounds {
     private static void commands() {
         says("A script, the text of play(), is a sequence of at most 40 commands, perhaps none, which do what the methods of these names do:");
         for (String none : new String[] {"", " ", "\n", " \n ".repeat(300)}) {
-            RepairStudio s = Bounds.busy();
+            CountedStudio s = Bounds.busy();
             List<String> before = Look.state(s);
             same("none", played(s, none), 0);
             same("does nothing", Look.difference(Look.state(s), before), "the same");
@@ -236,8 +236,8 @@ final class TextBounds {
         same("forty", played(Bounds.full(), "tick 1;".repeat(40)), 40);
         same("forty and blanks", played(Bounds.full(), "tick 1;".repeat(40) + " \n"), 40);
         Bounds.scriptRefused("tick 1;".repeat(41), 4, 280);
-        RepairStudio played = Bounds.full();
-        RepairStudio called = Bounds.full();
+        CountedStudio played = Bounds.full();
+        CountedStudio called = Bounds.full();
         same("all kinds", played(played, "plan 1 0;plan 1 2;cancel 1;lend 1 2 3 4;recall 1;lend 2 0 500 6;tick 3;lend 3 9 501 7;"), 8);
         called.plan(1, 0);
         called.plan(1, 2);
@@ -250,7 +250,7 @@ final class TextBounds {
         int[] loan = {9, 501, 7};
         for (int what = 0; what < 3; what++) same("number " + what + " of a loan", played.loan(3, what), loan[what]);
         same("is as called", Look.difference(Look.all(played), Look.all(called)), "the same");
-        RepairStudio approved = Bounds.loaded("recipe 1 0 0 3 0 0 1;object 1 1 1;");
+        CountedStudio approved = Bounds.loaded("recipe 1 0 0 3 0 0 1;object 1 1 1;");
         same("approve", played(approved, "plan 0 0;approve 0;"), 2);
         same("end", approved.object(0, 6), 72);
 
@@ -331,7 +331,7 @@ final class TextBounds {
         Bounds.textRefused("life 1;life 1;", 3, 7);
         Bounds.textRefused("benches 1;life 1;benches 1;", 3, 17);
         Bounds.textRefused("life 1;benches 1;life 1;", 3, 17);
-        RepairStudio s = Bounds.textTaken("life 7;benches 2;", 0);
+        CountedStudio s = Bounds.textTaken("life 7;benches 2;", 0);
         Check.input(s, "benches 3;life 8;");
         same("in a second text it is the first", s.load(), 0);
         same("also behind an error", Bounds.answer(s, x -> {
@@ -363,7 +363,7 @@ final class TextBounds {
         String some = "press 5;recipe 1 2 1 0 3 4 5;" + "object 5 7 0;".repeat(5);
         for (int k = 0; k < 8; k++) {
             String text = k % 2 == 0 ? "" : some;
-            RepairStudio s = Bounds.busy();
+            CountedStudio s = Bounds.busy();
             // forecasts, and a text that is refused in its last word, leave nothing behind
             if (k / 2 == 1) Look.state(s);
             if (k / 2 == 2) s.lentIn(1);
@@ -383,7 +383,7 @@ final class TextBounds {
             if (text.isEmpty()) continue;
             // it goes on as another one, too: nothing is left inside
             for (int object = 0; object < 5; object++) s.plan(object, 0);
-            RepairStudio other = Bounds.loaded(text);
+            CountedStudio other = Bounds.loaded(text);
             for (int object = 0; object < 5; object++) other.plan(object, 0);
             s.tick(9);
             other.tick(9);
@@ -392,14 +392,14 @@ final class TextBounds {
     }
 
     /** The state but for the number of calls that can be undone. */
-    private static List<String> state(RepairStudio s) {
+    private static List<String> state(CountedStudio s) {
         List<String> lines = new ArrayList<>(Look.state(s));
         lines.removeIf(line -> line.startsWith("count 12:"));
         return lines;
     }
 
     private static void undone(String what, Bounds.Call call) {
-        RepairStudio s = Bounds.busy();
+        CountedStudio s = Bounds.busy();
         s.undo();
         List<String> before = state(s);
         same(what + ": to undo ahead of it", s.count(12), 9);
@@ -433,7 +433,7 @@ final class TextBounds {
             s.undo();
             return s.approve(4);
         });
-        RepairStudio t = Bounds.loaded("recipe 1 0 0 0 0 0 1;object 1 1 1;");
+        CountedStudio t = Bounds.loaded("recipe 1 0 0 0 0 0 1;object 1 1 1;");
         for (int n = 0; n < 3; n++) t.plan(0, 0);
         List<String> before = state(t);
         same("the same recipes", t.exchange(0, 1, 2), 0);
@@ -444,7 +444,7 @@ final class TextBounds {
 
         says("the latest 10 one by one:");
         for (int calls = 0; calls <= 25; calls++) {
-            RepairStudio s = Bounds.loaded("object 1 1 1;");
+            CountedStudio s = Bounds.loaded("object 1 1 1;");
             for (int n = 0; n < calls; n++) s.tick(n + 1);
             int kept = Math.min(calls, 10);
             same("of " + calls, s.count(12), kept);
@@ -459,7 +459,7 @@ final class TextBounds {
         ringOfCalls();
 
         says("all is as ahead of it, but for the input buffer, the error, the output and the snapshots.");
-        RepairStudio s = Bounds.busy();
+        CountedStudio s = Bounds.busy();
         s.saveSnapshot(0);
         s.plan(0, 1);
         s.write(0);
@@ -483,7 +483,7 @@ final class TextBounds {
         Bounds.Call[] calls = {s -> s.plan(5, 0), s -> s.plan(0, 3), s -> s.cancel(2), s -> s.clearQueue(2), s -> s.exchange(4, 0, 2),
             s -> s.approve(0), s -> s.approve(2), s -> s.lend(4, 0, 0, 1), s -> s.lend(0, 0, 0, 0), s -> s.recall(0), s -> s.tick(0)};
         for (int k = 0; k < calls.length; k++) {
-            RepairStudio s = Bounds.loaded("recipe 1 0 0 0 0 0 1;recipe 2 0 0 0 0 0 1;" + "object 1 1 0;".repeat(5));
+            CountedStudio s = Bounds.loaded("recipe 1 0 0 0 0 0 1;recipe 2 0 0 0 0 0 1;" + "object 1 1 0;".repeat(5));
             s.plan(4, 0);
             s.plan(4, 1);
             s.lend(4, 5, 0, 1);
@@ -493,11 +493,11 @@ final class TextBounds {
             same("the one ahead of it is: call " + k, s.undo(), 3);
             same("plan is gone: call " + k, s.object(0, 5), 0);
         }
-        RepairStudio full = Bounds.full();
+        CountedStudio full = Bounds.full();
         for (int n = 0; n < 8; n++) full.plan(0, 0);
         full.plan(0, 0);
         same("FULL is not undone", full.undo(), 7);
-        RepairStudio late = Bounds.at(20000, new RepairStudio());
+        CountedStudio late = Bounds.at(20000, new CountedStudio());
         late.tick(1);
         late.undo();
         same("nor FULL of tick", late.count(4), 19000);
@@ -505,7 +505,7 @@ final class TextBounds {
 
     /** Going back and forth in the ring of the latest ten. */
     private static void ringOfCalls() {
-        RepairStudio s = Bounds.loaded("object 1 1 1;");
+        CountedStudio s = Bounds.loaded("object 1 1 1;");
         for (int n = 0; n < 13; n++) s.tick(1);
         for (int n = 0; n < 4; n++) s.undo();
         same("13 less 4", s.count(4), 9);
@@ -532,25 +532,25 @@ final class TextBounds {
         Bounds.refused("billAhead", () -> HourBounds.owing(0), Bounds.NO_SUCH, s -> s.billAhead(-1));
         Bounds.refused("ahead of a loan that waits", Bounds::busy, Bounds.BAD, s -> s.lend(4, 0, 0, 501));
         Bounds.refused("ahead of a place", Bounds::busy, Bounds.NO_SUCH, s -> s.exchange(5, 0, 0));
-        Bounds.refused("ahead of the end of time", () -> Bounds.at(20000, new RepairStudio()), Bounds.BAD, s -> s.tick(1001));
+        Bounds.refused("ahead of the end of time", () -> Bounds.at(20000, new CountedStudio()), Bounds.BAD, s -> s.tick(1001));
         Bounds.refused("ahead of a full queue", TextBounds::fullQueue, Bounds.NO_SUCH, s -> s.plan(0, 10));
 
         says("A call that throws an exception, or returns false or an error code, changes nothing, except where its description says so.");
         Bounds.refused("throws", Bounds::busy, Bounds.NO_SUCH, s -> s.plan(4, 3));
         Bounds.refused("returns false", Bounds::busy, false, s -> s.saveSnapshot(2));
-        Bounds.refused("returns false", RepairStudio::new, false, s -> s.restoreSnapshot(0));
+        Bounds.refused("returns false", CountedStudio::new, false, s -> s.restoreSnapshot(0));
         Bounds.refused("returns NONE", Bounds::busy, -1, s -> s.truncateInput(1000));
         Bounds.refused("returns FULL", TextBounds::fullQueue, -2, s -> s.plan(0, 0));
         Bounds.refused("returns REFUSED", Bounds::busy, -4, s -> s.cancel(2));
-        RepairStudio s = Bounds.busy();
+        CountedStudio s = Bounds.busy();
         List<String> before = Look.state(s);
         Check.input(s, "?");
         same("returns TEXT_ERROR", s.play(), -3);
         same("changes nothing else", Look.difference(Look.state(s), before), "the same");
     }
 
-    static RepairStudio fullQueue() {
-        RepairStudio s = Bounds.full();
+    static CountedStudio fullQueue() {
+        CountedStudio s = Bounds.full();
         for (int n = 0; n < 8; n++) s.plan(0, n);
         return s;
     }
